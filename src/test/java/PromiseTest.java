@@ -94,6 +94,8 @@ public final class PromiseTest {
     due("4: told(100)", x.told(100), 2);
     due("4: told(101)", x.told(101), 3);
     due("4: told(102)", x.told(102), 4);
+    due("30: told(99)", x.told(99), OUTSIDE);
+    due("30: told(103)", x.told(103), OUTSIDE);
   }
 
   private static void promises5to7() {
@@ -288,6 +290,7 @@ public final class PromiseTest {
     due("14: one of 4 in a pot", x.shared(20, 0), 372);
     due("14: MEALS do not share", x.shared(11000, 0), 44 + 88 + 20);
     due("14: none", x.shared(0, 13), 0);
+    due("14: the greatest number, but not all are there", x.shared(999999, 13), UNKNOWN);
     due("14: MEAL 0 is not there", x.shared(100000, 0), UNKNOWN);
     due("14: MEAL 5 is not there", x.shared(1, 0), UNKNOWN);
     due("14: shared(0, 14)", x.shared(0, 14), UNKNOWN);
@@ -433,6 +436,11 @@ public final class PromiseTest {
     due("22: v 200 at most", x.leaks(-1), 36 * 200);
     due("22: the last", x.leaks(36 * 200 - 1), 35200);
     due("23: the first 30", x.where(), (1 << 30) - 1);
+    pad(x, "~~~~~~~~~~~~~~~~~~~~~~~~~~~~~~~~~~~~~~~~~~~~~~~~~~~~~~~~~~~~");
+    x.seen(60, 19);
+    due("22: 60 ACTS", x.leaks(-1), 60 * 20);
+    due("24: half of them went already behind the 30th of 60", x.weigh(0), 29);
+    due("24: how many", x.weigh(1), 600);
   }
 
   private static void shopAndLeaks() {
@@ -532,6 +540,7 @@ public final class PromiseTest {
     x.set(1, 60);
     due("27: not for want of gas", x.week(1, 2, 2), 0);
     due("27: LEFT stays", x.told(1), 99);
+    due("27: the greatest seed and the most DAYS", x.week(9999, 50, 0), 99 - 44 - 44);
     int[][] bad = {{-1, 1, 0}, {10000, 1, 0}, {0, 0, 0}, {0, 51, 0}, {0, 1, 3}, {0, 1, -1}};
     for (int[] b : bad) {
       due("27: week(bad)", x.week(b[0], b[1], b[2]), OUTSIDE);
@@ -547,6 +556,8 @@ public final class PromiseTest {
     x.set(3, 1);
     x.set(4, 5);
     x.day(6, 4, true);
+    x.day(0, 1, true);
+    x.day(13, 2, true);
     x.seen(1, 2);
     pad(x, "ab");
     due("28: image(1)", x.image(1), 1);
@@ -561,6 +572,8 @@ public final class PromiseTest {
       x.set(w, 0);
     }
     x.day(6, 1, false);
+    x.day(0, 0, false);
+    x.day(13, 0, false);
     x.forget();
     x.seen(5, 5);
     x.seen(5, 5);
@@ -572,6 +585,8 @@ public final class PromiseTest {
       due("29, 30: told(" + i + ")", x.told(i), want[i]);
     }
     due("30: told(26)", x.told(26), 14);
+    due("30: told(20)", x.told(20), 11);
+    due("30: told(33)", x.told(33), 12);
     due("30: told(200)", x.told(200), 2);
     due("30: told(201)", x.told(201), 3);
     due("30: told(202)", x.told(202), 4);
