@@ -180,9 +180,9 @@ public final class OneCan {
         if (refused != 0) {
             return refused;
         }
-        // The warmth of a night in the bag is the PLAN's own: what day() told of the DAYS stays as it is.
         camp.settings[LEFT] = course.left;
         camp.settings[TODAY] = course.day;
+        camp.warmed = course.warmed;
         pad.size = 0;
         return pad.acts;
     }
@@ -471,6 +471,11 @@ public final class OneCan {
         final int[] settings = new int[TODAY + 1];
         final int[] winds = new int[DAYS];
         final boolean[] colds = new boolean[DAYS];
+        /**
+         * DAYS (bits) that a night in the bag warms, of PLANS that are DONE: apart from colds, for what day()
+         * told stays told, and by their numbers, for such a night warms that one DAY alone, whichever it is now.
+         */
+        int warmed;
         int meals;
         final int[] quarts = new int[MEALS];
         final int[] minutes = new int[MEALS];
@@ -489,6 +494,7 @@ public final class OneCan {
             for (int day = 0; day < DAYS; day++) {
                 colds[day] = other.colds[day];
             }
+            warmed = other.warmed;
             meals = other.meals;
             System.arraycopy(other.quarts, 0, quarts, 0, MEALS);
             System.arraycopy(other.minutes, 0, minutes, 0, MEALS);
@@ -596,9 +602,10 @@ public final class OneCan {
         int left;
         int day;
         boolean cold;
+        /** DAYS (bits) that a night in the bag warms, also where its night is not in the PLAN. */
+        int warmed;
         int burnt;
         int boiled;
-        private boolean bagged;
 
         Course(Camp camp, Pad pad) {
             this.camp = camp;
@@ -610,10 +617,10 @@ public final class OneCan {
             why = NONE;
             left = camp.settings[LEFT];
             day = camp.settings[TODAY];
-            cold = camp.colds[day];
+            warmed = camp.warmed;
+            cold = isColdToday();
             burnt = 0;
             boiled = 0;
-            bagged = false;
             lefts[0] = left;
             for (int act = 0; act < pad.acts && bad == NONE; act++) {
                 ready(act);
@@ -635,6 +642,10 @@ public final class OneCan {
                 }
             }
             return sum;
+        }
+
+        private boolean isColdToday() {
+            return camp.colds[day] && (warmed >> day & 1) == 0;
         }
 
         private void ready(int act) {
@@ -674,11 +685,10 @@ public final class OneCan {
             switch (pad.kinds[act]) {
                 case NIGHT:
                     day++;
-                    cold = camp.colds[day] && !bagged;
-                    bagged = false;
+                    cold = isColdToday();
                     break;
                 case BAG:
-                    bagged = true;
+                    warmed |= 1 << day + 1;
                     break;
                 case SHOP:
                     left = Math.min(left + SHOP_SELLS, CAN);

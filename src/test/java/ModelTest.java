@@ -4,6 +4,7 @@ import java.util.Arrays;
 import java.util.List;
 import java.util.Random;
 import java.util.TreeMap;
+import java.util.TreeSet;
 import java.util.regex.Matcher;
 import java.util.regex.Pattern;
 
@@ -20,6 +21,8 @@ public final class ModelTest {
     int left = 800, height, shut, shield, today;
     final int[] wind = new int[14];
     final boolean[] cold = new boolean[14];
+    /** DAYS whose night the can sleeps in the bag, of PLANS that are DONE. */
+    final TreeSet<Integer> bagNights = new TreeSet<>();
     final int[][] meals = new int[6][];
     final List<int[]> sights = new ArrayList<>();
 
@@ -32,6 +35,7 @@ public final class ModelTest {
       c.today = today;
       System.arraycopy(wind, 0, c.wind, 0, 14);
       System.arraycopy(cold, 0, c.cold, 0, 14);
+      c.bagNights.addAll(bagNights);
       for (int i = 0; i < 6; i++) {
         c.meals[i] = meals[i] == null ? null : meals[i].clone();
       }
@@ -46,6 +50,7 @@ public final class ModelTest {
   private static final class Trip {
     int bad = NONE, why = NONE, burnt, boiled, left, day;
     boolean cold, leakFits = true;
+    final TreeSet<Integer> bagNights = new TreeSet<>();
     final List<Integer> lefts = new ArrayList<>(), costs = new ArrayList<>(), byWind = new ArrayList<>(), days = new ArrayList<>();
   }
 
@@ -108,7 +113,7 @@ public final class ModelTest {
       Trip t = new Trip();
       t.left = c.left;
       t.day = c.today;
-      boolean[] cold = c.cold.clone();
+      t.bagNights.addAll(c.bagNights);
       t.lefts.add(t.left);
       List<String> acts = acts();
       for (int i = 0; i < acts.size(); i++) {
@@ -128,7 +133,7 @@ public final class ModelTest {
             why = 1;
           } else if (!hot(meal)) {
             why = 2;
-          } else if (cold[t.day] && ways.contains("h")) {
+          } else if (isCold(t) && ways.contains("h")) {
             why = 3;
           } else {
             price = price(meal, wind[t.day], ways);
@@ -147,9 +152,7 @@ public final class ModelTest {
         if (k == '.') {
           t.day++;
         } else if (k == '~') {
-          if (t.day < 13) {
-            cold[t.day + 1] = false;
-          }
+          t.bagNights.add(t.day);
         } else if (k == '$') {
           t.left = Math.min(4000, t.left + 1000);
         } else {
@@ -166,8 +169,12 @@ public final class ModelTest {
         }
         t.lefts.add(t.left);
       }
-      t.cold = cold[t.day];
+      t.cold = isCold(t);
       return t;
+    }
+
+    boolean isCold(Trip t) {
+      return c.cold[t.day] && !t.bagNights.contains(t.day - 1);
     }
 
     Trip asTold() {
@@ -627,6 +634,8 @@ public final class ModelTest {
       int n = acts().size();
       c.left = t.left;
       c.today = t.day;
+      c.bagNights.clear();
+      c.bagNights.addAll(t.bagNights);
       pad = "";
       return n;
     }
@@ -896,6 +905,41 @@ public final class ModelTest {
     p.both("mark");
   }
 
+  /** Nights in the bag, DONE in small PLANS, so that what is behind one shows in the next. */
+  private static void sleepInBag(Pair p, Random r) {
+    int meal = r.nextInt(6);
+    p.both("meal", meal, 1, 0, 1);
+    for (int turn = 0; turn < 4; turn++) {
+      p.both("day", Math.min(13, p.model.c.today + r.nextInt(3)), r.nextInt(3), r.nextInt(4) > 0 ? 1 : 0);
+      p.both("set", 0, 4000);
+      p.both("wipe");
+      String text = new String[] {"~", "~.", ".", "~.~", "", "~~.", "A~", "AH.~"}[r.nextInt(8)];
+      tellSmall(p, text, meal);
+      if (r.nextInt(4) > 0) {
+        p.both("done");
+      }
+      int odd = r.nextInt(8);
+      if (odd < 2) {
+        p.both(odd == 0 ? "image" : "restore", r.nextInt(2));
+      } else if (odd == 2) {
+        p.both("set", 4, r.nextInt(14));
+      }
+      p.both("wipe");
+      tellSmall(p, new String[] {"AH", ".AH", "AH.AH", "..AH", ".AH.AH"}[r.nextInt(5)], meal);
+      p.both("judge", 0);
+      p.both("behind", 2);
+      p.both("gust", 1, 1, 0);
+      p.both("leaks", -1);
+    }
+  }
+
+  private static void tellSmall(Pair p, String text, int meal) {
+    for (int i = 0; i < text.length(); i++) {
+      char sign = text.charAt(i);
+      p.both("say", sign == 'A' ? 'a' + meal : sign == 'H' ? 'h' : sign);
+    }
+  }
+
   private static boolean run(long seed) {
     Random r = new Random(seed);
     Pair p = new Pair();
@@ -903,7 +947,7 @@ public final class ModelTest {
       furnish(p, r);
     }
     while (p.log.size() < 350 && p.same) {
-      int turn = r.nextInt(12);
+      int turn = r.nextInt(13);
       if (turn < 4) {
         tellPlan(p, r);
         askOfPlan(p, r);
@@ -914,6 +958,8 @@ public final class ModelTest {
         }
       } else if (turn < 8) {
         askOfPortions(p, r);
+      } else if (turn == 12) {
+        sleepInBag(p, r);
       } else if (turn == 8) {
         p.both("image", r.nextInt(2));
         p.both("set", r.nextInt(5), r.nextInt(14));

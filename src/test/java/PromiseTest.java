@@ -28,6 +28,9 @@ public final class PromiseTest {
     promise8();
     promises9to12();
     bag();
+    bagBehindDone();
+    bagThatIsNotDone();
+    bagInImages();
     promise13();
     promise14();
     promises15and16();
@@ -253,6 +256,85 @@ public final class PromiseTest {
     due("bag: an ACT each", x.done(), 4);
     due("bag: DAYS are as told", x.told(21), 10);
     due("bag: DAYS are as told", x.told(22), 10);
+  }
+
+  /** MEAL 0 is there, and every DAY is COLD. */
+  private static OneCan coldDays() {
+    OneCan x = new OneCan();
+    x.meal(0, 1, 0, 1);
+    for (int d = 0; d < 14; d++) {
+      x.day(d, 0, true);
+    }
+    return x;
+  }
+
+  private static OneCan doneThen(OneCan x, String plan, String next) {
+    pad(x, plan);
+    due("12: done() of " + plan, x.done() >= 0 ? 1 : 0, 1);
+    return pad(x, next);
+  }
+
+  private static void bagBehindDone() {
+    OneCan x = coldDays();
+    due("12: DAY 0 is COLD", pad(x, "").behind(2), 1);
+    due("12: the night is DONE: not COLD then", doneThen(x, "~.", "").behind(2), 0);
+    due("12: told as before", x.told(21), 10);
+    due("12: a high flame", pad(x, "ah").judge(0), NONE);
+    due("12: what it burns", x.spent(1), 55);
+    due("12: gusts are told", x.gust(5, 1, 0), 66);
+    due("12: leaks are told", x.leaks(-1), 74);
+    due("12: that one alone", pad(x, "ah.ah").judge(0), 2);
+    due("12: that one alone", x.judge(1), 3);
+    due("12: COLD behind it", doneThen(x, "ah.", "").behind(2), 1);
+    due("12: LEFT", x.behind(0), 745);
+    due("12: a PLAN of nothing changes nothing", doneThen(doneThen(x, "~.", ""), "", "ah").judge(0), NONE);
+
+    x = coldDays();
+    due("12: the night is to come: COLD yet", doneThen(x, "~", "").behind(2), 1);
+    due("12: the night is to come", pad(x, "ah").judge(1), 3);
+    due("12: the night is to come: not COLD then", pad(x, ".").behind(2), 0);
+    due("12: the DAY behind the next is COLD", pad(x, "..").behind(2), 1);
+    due("12: other ACTS of the DAY are DONE", doneThen(x, "a", ".ah").judge(0), NONE);
+    due("12: the night is DONE by itself", doneThen(x, ".", "ah").judge(0), NONE);
+    due("12: both, this DAY and the next", doneThen(x, "~", "ah.ah").judge(0), NONE);
+    due("12: a second ~ is nothing more", doneThen(x, "~", "ah.ah.ah").judge(0), 4);
+
+    x = coldDays();
+    due("12: another DAY is set: COLD", doneThen(x, "~.", "").set(4, 5), 1);
+    due("12: another DAY is set: COLD", x.behind(2), 1);
+    due("12: the next of another DAY is COLD", pad(x, ".").behind(2), 1);
+    x.set(4, 1);
+    due("12: that DAY again: not COLD", pad(x, "").behind(2), 0);
+    x.set(4, 13);
+    due("12: no DAY behind 13", doneThen(x, "~", "").behind(2), 1);
+    x.set(4, 0);
+    due("12: it is DAY 0", x.behind(2), 1);
+  }
+
+  private static void bagThatIsNotDone() {
+    OneCan x = coldDays();
+    pad(x, "~.");
+    x.wipe();
+    due("12: wiped", pad(x, ".").behind(2), 1);
+    due("12: STATE", pad(x, "~b").done(), STATE);
+    due("12: STATE: nothing changes", pad(x, ".ah").judge(0), 1);
+    due("12: NO", pad(x, "~!").done(), NO);
+    due("12: NO: nothing changes", pad(x, ".ah").judge(0), 1);
+  }
+
+  private static void bagInImages() {
+    OneCan x = coldDays();
+    x.image(0);
+    doneThen(x, "~.~", "");
+    x.image(1);
+    due("29: kept ahead of the bag", x.restore(0), 1);
+    due("29: COLD", pad(x, ".ah").judge(0), 1);
+    due("29: kept behind it", x.restore(1), 1);
+    due("29: this DAY and the next", pad(x, "ah.ah").judge(0), NONE);
+    due("29: not the one behind", pad(x, "..ah").judge(0), 2);
+    doneThen(x, ".~.", "");
+    x.restore(1);
+    due("29: what came later is gone", pad(x, "..ah").judge(0), 2);
   }
 
   private static void promise13() {
