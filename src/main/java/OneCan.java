@@ -150,7 +150,7 @@ public final class OneCan {
         if (what == 1) {
             return course.day;
         }
-        return course.cold ? 1 : 0;
+        return course.isCold() ? 1 : 0;
     }
 
     public int cost(int act, int what) {
@@ -182,7 +182,8 @@ public final class OneCan {
         }
         camp.settings[LEFT] = course.left;
         camp.settings[TODAY] = course.day;
-        camp.warmed = course.warmed;
+        camp.warm = course.warm;
+        camp.inBag = course.inBag;
         pad.size = 0;
         return pad.acts;
     }
@@ -472,10 +473,12 @@ public final class OneCan {
         final int[] winds = new int[DAYS];
         final boolean[] colds = new boolean[DAYS];
         /**
-         * DAYS (bits) that a night in the bag warms, of PLANS that are DONE: apart from colds, for what day()
-         * told stays told, and by their numbers, for such a night warms that one DAY alone, whichever it is now.
+         * By PLANS that are DONE: whether the can slept in the bag the night that came last, and whether it does
+         * in the one next to come. Apart from colds, for what day() told stays told; and no DAYS' numbers, for ~
+         * tells of a night as it comes: set() may lead to the same number by another night.
          */
-        int warmed;
+        boolean warm;
+        boolean inBag;
         int meals;
         final int[] quarts = new int[MEALS];
         final int[] minutes = new int[MEALS];
@@ -494,7 +497,8 @@ public final class OneCan {
             for (int day = 0; day < DAYS; day++) {
                 colds[day] = other.colds[day];
             }
-            warmed = other.warmed;
+            warm = other.warm;
+            inBag = other.inBag;
             meals = other.meals;
             System.arraycopy(other.quarts, 0, quarts, 0, MEALS);
             System.arraycopy(other.minutes, 0, minutes, 0, MEALS);
@@ -601,9 +605,9 @@ public final class OneCan {
         int why;
         int left;
         int day;
-        boolean cold;
-        /** DAYS (bits) that a night in the bag warms, also where its night is not in the PLAN. */
-        int warmed;
+        /** Whether a night in the bag warms this DAY, and whether the night next to come is such a one. */
+        boolean warm;
+        boolean inBag;
         int burnt;
         int boiled;
 
@@ -617,8 +621,8 @@ public final class OneCan {
             why = NONE;
             left = camp.settings[LEFT];
             day = camp.settings[TODAY];
-            warmed = camp.warmed;
-            cold = isColdToday();
+            warm = camp.warm;
+            inBag = camp.inBag;
             burnt = 0;
             boiled = 0;
             lefts[0] = left;
@@ -644,8 +648,8 @@ public final class OneCan {
             return sum;
         }
 
-        private boolean isColdToday() {
-            return camp.colds[day] && (warmed >> day & 1) == 0;
+        boolean isCold() {
+            return camp.colds[day] && !warm;
         }
 
         private void ready(int act) {
@@ -675,7 +679,7 @@ public final class OneCan {
             if (!camp.isHot(kind)) {
                 return NOT_HOT;
             }
-            if (cold && (pad.ways[act] & HIGH) != 0) {
+            if (isCold() && (pad.ways[act] & HIGH) != 0) {
                 return TOO_COLD;
             }
             return !gasWithoutEnd && burns[act] > left ? NO_GAS : 0;
@@ -685,10 +689,11 @@ public final class OneCan {
             switch (pad.kinds[act]) {
                 case NIGHT:
                     day++;
-                    cold = isColdToday();
+                    warm = inBag;
+                    inBag = false;
                     break;
                 case BAG:
-                    warmed |= 1 << day + 1;
+                    inBag = true;
                     break;
                 case SHOP:
                     left = Math.min(left + SHOP_SELLS, CAN);

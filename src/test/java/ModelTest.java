@@ -4,7 +4,6 @@ import java.util.Arrays;
 import java.util.List;
 import java.util.Random;
 import java.util.TreeMap;
-import java.util.TreeSet;
 import java.util.regex.Matcher;
 import java.util.regex.Pattern;
 
@@ -21,8 +20,8 @@ public final class ModelTest {
     int left = 800, height, shut, shield, today;
     final int[] wind = new int[14];
     final boolean[] cold = new boolean[14];
-    /** DAYS whose night the can sleeps in the bag, of PLANS that are DONE. */
-    final TreeSet<Integer> bagNights = new TreeSet<>();
+    /** All signs . and ~ of PLANS that are DONE, one behind the other. */
+    String nights = "";
     final int[][] meals = new int[6][];
     final List<int[]> sights = new ArrayList<>();
 
@@ -35,7 +34,7 @@ public final class ModelTest {
       c.today = today;
       System.arraycopy(wind, 0, c.wind, 0, 14);
       System.arraycopy(cold, 0, c.cold, 0, 14);
-      c.bagNights.addAll(bagNights);
+      c.nights = nights;
       for (int i = 0; i < 6; i++) {
         c.meals[i] = meals[i] == null ? null : meals[i].clone();
       }
@@ -50,7 +49,7 @@ public final class ModelTest {
   private static final class Trip {
     int bad = NONE, why = NONE, burnt, boiled, left, day;
     boolean cold, leakFits = true;
-    final TreeSet<Integer> bagNights = new TreeSet<>();
+    String nights;
     final List<Integer> lefts = new ArrayList<>(), costs = new ArrayList<>(), byWind = new ArrayList<>(), days = new ArrayList<>();
   }
 
@@ -113,7 +112,7 @@ public final class ModelTest {
       Trip t = new Trip();
       t.left = c.left;
       t.day = c.today;
-      t.bagNights.addAll(c.bagNights);
+      t.nights = c.nights;
       t.lefts.add(t.left);
       List<String> acts = acts();
       for (int i = 0; i < acts.size(); i++) {
@@ -150,9 +149,10 @@ public final class ModelTest {
         t.costs.add(price);
         t.byWind.add(windPart);
         if (k == '.') {
+          t.nights += k;
           t.day++;
         } else if (k == '~') {
-          t.bagNights.add(t.day);
+          t.nights += k;
         } else if (k == '$') {
           t.left = Math.min(4000, t.left + 1000);
         } else {
@@ -174,7 +174,7 @@ public final class ModelTest {
     }
 
     boolean isCold(Trip t) {
-      return c.cold[t.day] && !t.bagNights.contains(t.day - 1);
+      return c.cold[t.day] && !t.nights.matches(".*~\\.~*");
     }
 
     Trip asTold() {
@@ -634,8 +634,7 @@ public final class ModelTest {
       int n = acts().size();
       c.left = t.left;
       c.today = t.day;
-      c.bagNights.clear();
-      c.bagNights.addAll(t.bagNights);
+      c.nights = t.nights;
       pad = "";
       return n;
     }
@@ -921,8 +920,9 @@ public final class ModelTest {
       int odd = r.nextInt(8);
       if (odd < 2) {
         p.both(odd == 0 ? "image" : "restore", r.nextInt(2));
-      } else if (odd == 2) {
-        p.both("set", 4, r.nextInt(14));
+      } else if (odd < 5) {
+        // Near the DAY that it is, so that DAYS whose numbers have been warmed come again.
+        p.both("set", 4, odd == 2 ? r.nextInt(14) : Math.max(0, p.model.c.today - r.nextInt(3)));
       }
       p.both("wipe");
       tellSmall(p, new String[] {"AH", ".AH", "AH.AH", "..AH", ".AH.AH"}[r.nextInt(5)], meal);

@@ -29,6 +29,8 @@ public final class PromiseTest {
     promises9to12();
     bag();
     bagBehindDone();
+    bagAndSetDay();
+    bagAndDay();
     bagThatIsNotDone();
     bagInImages();
     promise13();
@@ -299,16 +301,54 @@ public final class PromiseTest {
     due("12: both, this DAY and the next", doneThen(x, "~", "ah.ah").judge(0), NONE);
     due("12: a second ~ is nothing more", doneThen(x, "~", "ah.ah.ah").judge(0), 4);
 
+  }
+
+  /** ~ tells of the night next to come: set(4, v) says which DAY it is, and DAYS are not warmed by their numbers. */
+  private static void bagAndSetDay() {
+    OneCan x = coldDays();
+    x.set(4, 7);
+    doneThen(x, ".~", "").set(4, 7);
+    due("2: the night next to come is in the bag", pad(x, ".ah").judge(0), NONE);
+    due("2: the second is not", pad(x, "..ah").judge(0), 2);
+    due("2: the second is not", x.judge(1), 3);
+    due("2: COLD ahead of it", pad(x, "ah").judge(1), 3);
+    due("2: the number is set, no night", doneThen(x, "", "").set(4, 9), 7);
+    due("2: DAY 9 is COLD", x.behind(2), 1);
+    due("2: still to come", pad(x, ".").behind(2), 0);
+
     x = coldDays();
-    due("12: another DAY is set: COLD", doneThen(x, "~.", "").set(4, 5), 1);
-    due("12: another DAY is set: COLD", x.behind(2), 1);
-    due("12: the next of another DAY is COLD", pad(x, ".").behind(2), 1);
+    doneThen(x, "~.", "").set(4, 0);
+    due("2: the night in the bag came last", x.behind(2), 0);
+    due("2: another night, the same number", pad(x, ".ah").judge(0), 1);
+    x.set(4, 5);
+    due("2: it came last yet", pad(x, "").behind(2), 0);
+    due("2: the next is another", pad(x, ".").behind(2), 1);
+    due("2: DONE", doneThen(x, ".", "").behind(2), 1);
     x.set(4, 1);
-    due("12: that DAY again: not COLD", pad(x, "").behind(2), 0);
+    due("2: that number again", x.behind(2), 1);
+
+    x = coldDays();
     x.set(4, 13);
-    due("12: no DAY behind 13", doneThen(x, "~", "").behind(2), 1);
+    due("2: no DAY behind 13", doneThen(x, "~", "").behind(2), 1);
     x.set(4, 0);
-    due("12: it is DAY 0", x.behind(2), 1);
+    due("2: it is DAY 0", x.behind(2), 1);
+    due("2: the night is to come yet", pad(x, ".").behind(2), 0);
+    x.set(4, 14);
+    due("2: refused, nothing changes", x.behind(2), 0);
+  }
+
+  private static void bagAndDay() {
+    OneCan x = coldDays();
+    doneThen(x, "~.~", "");
+    x.day(1, 0, true);
+    x.day(2, 0, true);
+    due("3: COLD as told, and warmed", pad(x, "ah.ah").judge(0), NONE);
+    x.day(1, 0, false);
+    due("3: as told last", x.told(21), 0);
+    due("3: not COLD", pad(x, "").behind(2), 0);
+    x.day(1, 2, true);
+    due("3: as told last", x.told(21), 12);
+    due("3: warmed yet", x.behind(2), 0);
   }
 
   private static void bagThatIsNotDone() {
@@ -335,6 +375,11 @@ public final class PromiseTest {
     doneThen(x, ".~.", "");
     x.restore(1);
     due("29: what came later is gone", pad(x, "..ah").judge(0), 2);
+    due("29: the nights are as kept", pad(x, "ah.ah").judge(0), NONE);
+    x.set(4, 0);
+    due("29: the DAY is set, the nights are as kept", x.judge(0), NONE);
+    x.restore(0);
+    due("29: none", pad(x, "ah").judge(0), 0);
   }
 
   private static void promise13() {
