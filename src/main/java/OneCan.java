@@ -182,8 +182,8 @@ public final class OneCan {
         }
         camp.settings[LEFT] = course.left;
         camp.settings[TODAY] = course.day;
-        camp.warm = course.warm;
-        camp.inBag = course.inBag;
+        camp.warmDay = course.warmDay;
+        camp.bagDays = course.bagDays;
         pad.size = 0;
         return pad.acts;
     }
@@ -473,12 +473,13 @@ public final class OneCan {
         final int[] winds = new int[DAYS];
         final boolean[] colds = new boolean[DAYS];
         /**
-         * By PLANS that are DONE: whether the can slept in the bag the night that came last, and whether it does
-         * in the one next to come. Apart from colds, for what day() told stays told; and no DAYS' numbers, for ~
-         * tells of a night as it comes: set() may lead to the same number by another night.
+         * By PLANS that are DONE: the DAY that the night that came last warms (NONE: it was not in the bag), and, as
+         * bits, the DAYS on which ~ was said since. Apart from colds, for what day() told stays told. Both by the
+         * DAYS' numbers, for set() may lead to another DAY, which is not the one that is warmed; and both since the
+         * last night alone, for set() may lead to the same number by another night.
          */
-        boolean warm;
-        boolean inBag;
+        int warmDay = NONE;
+        int bagDays;
         int meals;
         final int[] quarts = new int[MEALS];
         final int[] minutes = new int[MEALS];
@@ -497,8 +498,8 @@ public final class OneCan {
             for (int day = 0; day < DAYS; day++) {
                 colds[day] = other.colds[day];
             }
-            warm = other.warm;
-            inBag = other.inBag;
+            warmDay = other.warmDay;
+            bagDays = other.bagDays;
             meals = other.meals;
             System.arraycopy(other.quarts, 0, quarts, 0, MEALS);
             System.arraycopy(other.minutes, 0, minutes, 0, MEALS);
@@ -605,9 +606,9 @@ public final class OneCan {
         int why;
         int left;
         int day;
-        /** Whether a night in the bag warms this DAY, and whether the night next to come is such a one. */
-        boolean warm;
-        boolean inBag;
+        /** As of a Camp. */
+        int warmDay;
+        int bagDays;
         int burnt;
         int boiled;
 
@@ -621,8 +622,8 @@ public final class OneCan {
             why = NONE;
             left = camp.settings[LEFT];
             day = camp.settings[TODAY];
-            warm = camp.warm;
-            inBag = camp.inBag;
+            warmDay = camp.warmDay;
+            bagDays = camp.bagDays;
             burnt = 0;
             boiled = 0;
             lefts[0] = left;
@@ -649,7 +650,7 @@ public final class OneCan {
         }
 
         boolean isCold() {
-            return camp.colds[day] && !warm;
+            return camp.colds[day] && day != warmDay;
         }
 
         private void ready(int act) {
@@ -688,12 +689,12 @@ public final class OneCan {
         private void carryOut(int act) {
             switch (pad.kinds[act]) {
                 case NIGHT:
+                    warmDay = (bagDays >> day & 1) == 1 ? day + 1 : NONE;
+                    bagDays = 0;
                     day++;
-                    warm = inBag;
-                    inBag = false;
                     break;
                 case BAG:
-                    inBag = true;
+                    bagDays |= 1 << day;
                     break;
                 case SHOP:
                     left = Math.min(left + SHOP_SELLS, CAN);

@@ -20,7 +20,7 @@ public final class ModelTest {
     int left = 800, height, shut, shield, today;
     final int[] wind = new int[14];
     final boolean[] cold = new boolean[14];
-    /** All signs . and ~ of PLANS that are DONE, one behind the other. */
+    /** All signs . and ~ of PLANS that are DONE, one behind the other, each with the DAY that it was said on. */
     String nights = "";
     final int[][] meals = new int[6][];
     final List<int[]> sights = new ArrayList<>();
@@ -149,10 +149,10 @@ public final class ModelTest {
         t.costs.add(price);
         t.byWind.add(windPart);
         if (k == '.') {
-          t.nights += k;
+          t.nights += "." + t.day + ";";
           t.day++;
         } else if (k == '~') {
-          t.nights += k;
+          t.nights += "~" + t.day + ";";
         } else if (k == '$') {
           t.left = Math.min(4000, t.left + 1000);
         } else {
@@ -174,7 +174,18 @@ public final class ModelTest {
     }
 
     boolean isCold(Trip t) {
-      return c.cold[t.day] && !t.nights.matches(".*~\\.~*");
+      return c.cold[t.day] && !isWarmed(t);
+    }
+
+    /** The night that came last ended the DAY ahead of this one, and of it, since the night before it, ~ was said. */
+    private static boolean isWarmed(Trip t) {
+      int last = t.nights.lastIndexOf('.');
+      if (last < 0) {
+        return false;
+      }
+      String ahead = (t.day - 1) + ";";
+      String said = t.nights.substring(t.nights.lastIndexOf('.', last - 1) + 1, last);
+      return t.nights.startsWith(ahead, last + 1) && said.contains("~" + ahead);
     }
 
     Trip asTold() {
@@ -922,7 +933,11 @@ public final class ModelTest {
         p.both(odd == 0 ? "image" : "restore", r.nextInt(2));
       } else if (odd < 5) {
         // Near the DAY that it is, so that DAYS whose numbers have been warmed come again.
-        p.both("set", 4, odd == 2 ? r.nextInt(14) : Math.max(0, p.model.c.today - r.nextInt(3)));
+        int was = p.model.c.today;
+        p.both("set", 4, odd == 2 ? r.nextInt(14) : Math.max(0, was - r.nextInt(3)));
+        if (r.nextBoolean()) {
+          goOnElsewhere(p, r, meal, was);
+        }
       }
       p.both("wipe");
       tellSmall(p, new String[] {"AH", ".AH", "AH.AH", "..AH", ".AH.AH"}[r.nextInt(5)], meal);
@@ -931,6 +946,16 @@ public final class ModelTest {
       p.both("gust", 1, 1, 0);
       p.both("leaks", -1);
     }
+  }
+
+  /** Back to the DAY that it was, with or without a PLAN that is DONE on another one. */
+  private static void goOnElsewhere(Pair p, Random r, int meal, int was) {
+    if (r.nextBoolean()) {
+      p.both("wipe");
+      tellSmall(p, new String[] {"A", "~", ".", "~."}[r.nextInt(4)], meal);
+      p.both("done");
+    }
+    p.both("set", 4, was);
   }
 
   private static void tellSmall(Pair p, String text, int meal) {

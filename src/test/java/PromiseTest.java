@@ -30,6 +30,7 @@ public final class PromiseTest {
     bag();
     bagBehindDone();
     bagAndSetDay();
+    warmDayAndSetDay();
     bagAndDay();
     bagThatIsNotDone();
     bagInImages();
@@ -303,38 +304,72 @@ public final class PromiseTest {
 
   }
 
-  /** ~ tells of the night next to come: set(4, v) says which DAY it is, and DAYS are not warmed by their numbers. */
+  /** ~ tells of the night that ends its DAY, if that one comes next: no other DAY is warmed. */
   private static void bagAndSetDay() {
     OneCan x = coldDays();
-    x.set(4, 7);
-    doneThen(x, ".~", "").set(4, 7);
-    due("2: the night next to come is in the bag", pad(x, ".ah").judge(0), NONE);
-    due("2: the second is not", pad(x, "..ah").judge(0), 2);
-    due("2: the second is not", x.judge(1), 3);
-    due("2: COLD ahead of it", pad(x, "ah").judge(1), 3);
-    due("2: the number is set, no night", doneThen(x, "", "").set(4, 9), 7);
-    due("2: DAY 9 is COLD", x.behind(2), 1);
-    due("2: still to come", pad(x, ".").behind(2), 0);
+    doneThen(x, "~", "").set(4, 7);
+    due("2: the night of another DAY is not in the bag", pad(x, ".ah").judge(0), 1);
+    due("2: a high flame on a COLD DAY", x.judge(1), 3);
+    due("2: COLD then", pad(x, ".").behind(2), 1);
+    due("2: gas without end, and COLD", pad(x, ".ah").gust(5, 1, 0), OneCan.GONE + STATE);
+    due("2: it is DAY 7", x.set(4, 0), 7);
+    due("2: the DAY of the ~ again, no night has come", x.judge(0), NONE);
+    due("2: it is DAY 0", x.set(4, 0), 0);
+    due("2: set to the DAY that it is", x.judge(0), NONE);
+    due("2: COLD ahead of the night", pad(x, "ah").judge(1), 3);
+    x.set(4, 14);
+    due("2: refused, nothing changes", pad(x, ".ah").judge(0), NONE);
 
     x = coldDays();
-    doneThen(x, "~.", "").set(4, 0);
-    due("2: the night in the bag came last", x.behind(2), 0);
-    due("2: another night, the same number", pad(x, ".ah").judge(0), 1);
-    x.set(4, 5);
-    due("2: it came last yet", pad(x, "").behind(2), 0);
-    due("2: the next is another", pad(x, ".").behind(2), 1);
-    due("2: DONE", doneThen(x, ".", "").behind(2), 1);
-    x.set(4, 1);
-    due("2: that number again", x.behind(2), 1);
+    x.set(4, 7);
+    doneThen(x, ".~", "").set(4, 7);
+    due("2: the night that comes next is another", pad(x, ".ah").judge(0), 1);
+    due("2: the second is not that night", pad(x, "..ah").judge(0), 2);
+    due("2: DONE, another night has come", doneThen(x, ".", ".ah").judge(0), 1);
 
     x = coldDays();
     x.set(4, 13);
     due("2: no DAY behind 13", doneThen(x, "~", "").behind(2), 1);
     x.set(4, 0);
-    due("2: it is DAY 0", x.behind(2), 1);
-    due("2: the night is to come yet", pad(x, ".").behind(2), 0);
-    x.set(4, 14);
-    due("2: refused, nothing changes", x.behind(2), 0);
+    due("2: DAY 0 is another one", pad(x, ".").behind(2), 1);
+    due("2: DONE elsewhere, no night", doneThen(x, "a", ".").behind(2), 1);
+    x.set(4, 12);
+    due("2: DAY 13 is the next to 12", x.behind(2), 1);
+  }
+
+  private static void warmDayAndSetDay() {
+    OneCan x = coldDays();
+    doneThen(x, "~.", "").set(4, 5);
+    due("2: DAY 5 is not the one that is warmed", x.behind(2), 1);
+    due("2: a high flame on a COLD DAY", pad(x, "ah").judge(1), 3);
+    due("2: cost", x.cost(0, 0), STATE);
+    due("2: spent", x.spent(5), STATE);
+    due("2: done", x.done(), STATE);
+    due("2: leaks", x.leaks(-1), STATE);
+    due("2: gust", x.gust(5, 1, 0), OneCan.GONE + STATE);
+    due("2: the next is COLD too", pad(x, ".").behind(2), 1);
+    x.set(4, 0);
+    due("2: nor the DAY ahead of it", pad(x, "").behind(2), 1);
+    due("2: another night, the same number", pad(x, ".ah").judge(0), 1);
+    x.set(4, 1);
+    due("2: the DAY that is warmed again, no night has come", pad(x, "ah").judge(0), NONE);
+    due("2: set to the DAY that it is", x.set(4, 1), 1);
+    due("2: warmed yet", x.judge(0), NONE);
+    due("2: another night has come", doneThen(x, "ah.", "").behind(2), 1);
+    x.set(4, 1);
+    due("2: that number again", x.behind(2), 1);
+
+    x = coldDays();
+    doneThen(x, "~.", "").set(4, 5);
+    due("2: ~ on another DAY", doneThen(x, "~", ".ah").judge(0), NONE);
+    x.set(4, 1);
+    due("2: warmed yet, no night has come", pad(x, "ah").judge(0), NONE);
+    due("2: ~ on each DAY", doneThen(x, "~", ".ah").judge(0), NONE);
+    x.set(4, 5);
+    due("2: ~ on each DAY", x.judge(0), NONE);
+    due("2: one night comes next", doneThen(x, ".", "ah").judge(0), NONE);
+    x.set(4, 1);
+    due("2: and not the other", pad(x, ".ah").judge(0), 1);
   }
 
   private static void bagAndDay() {
@@ -377,7 +412,9 @@ public final class PromiseTest {
     due("29: what came later is gone", pad(x, "..ah").judge(0), 2);
     due("29: the nights are as kept", pad(x, "ah.ah").judge(0), NONE);
     x.set(4, 0);
-    due("29: the DAY is set, the nights are as kept", x.judge(0), NONE);
+    due("29: another DAY is set", x.judge(0), 0);
+    x.restore(1);
+    due("29: the DAYS are as kept", x.judge(0), NONE);
     x.restore(0);
     due("29: none", pad(x, "ah").judge(0), 0);
   }
