@@ -95,6 +95,13 @@ public final class EdgesOfLeaksTest {
     BOOK.run("pad ~~; seen(1, 3); seen(2, 3); leaks(-1) = 20; seen(2, 2); leaks(-1) = 0; where() = 0; weigh(0) = NONE");
     BOOK.run("pad ~; seen(1, 3) = 1; seen(1, 3) = 2; leaks(-1) = 20; seen(0, 4) = 3; leaks(-1) = 20; seen(0, 3) = 4; leaks(-1) = 0");
     BOOK.run("pad ~; " + "seen(1, 3); ".repeat(7) + "leaks(-1) = 20; seen(1, 2) = 8; leaks(-1) = 0");
+    // Whichever of two that are not both so was seen first.
+    BOOK.run("pad ~; seen(1, 2); seen(1, 3); leaks(-1) = 0");
+    BOOK.run("pad ~; seen(1, 3); seen(1, 2); leaks(-1) = 0");
+    BOOK.run("pad ~~; seen(1, 2); seen(2, 3); leaks(-1) = 0");
+    BOOK.run("pad ~~; seen(2, 3); seen(1, 2); leaks(-1) = 0");
+    // 756 less 10 v, behind a MEAL: MARK 2 for v 16 to 35.
+    BOOK.run(CAMP + "pad ~a; seen(2, 2); leaks(-1) = 40; leaks(0) = 16; leaks(19) = 35; leaks(20) = 1016; leaks(39) = 1035; where() = 3");
     BOOK.words("all that fit");
     BOOK.run("pad ~; told(7) = 0; leaks(-1) = 80");
     BOOK.words("a SIGHT behind more ACTS than there are is not");
@@ -108,6 +115,10 @@ public final class EdgesOfLeaksTest {
     BOOK.run("pad ~~; seen(1, 3); leaks(-1) = 20; leaks(0) = 1; leaks(19) = 20; where() = 1; forget(); seen(1, 4); leaks(-1) = 80; leaks(0) = 1001; leaks(79) = 1080; where() = 2; forget(); seen(2, 3); leaks(-1) = 40; leaks(20) = 1001; where() = 3"
         + "; forget(); seen(2, 4); leaks(-1) = 0; forget(); seen(0, 4); leaks(-1) = 160; forget(); seen(0, 3); leaks(-1) = 0");
     // A full can is full again behind the shop, though something went ahead of it.
+    BOOK.run("meal(0, 4, 25, 1); set(2, 6); set(0, 4000); pad ~$a; behind(0) = 3799; seen(3, 19); leaks(-1) = 0; forget(); seen(3, 18); leaks(0) = 1");
+    BOOK.run(CAMP + "set(0, 3900); pad ~$a; seen(3, 20); leaks(-1) = 0; forget(); seen(3, 19); leaks(-1) = 135; leaks(0) = 1; leaks(104) = 105; leaks(105) = 1001");
+    BOOK.run("set(2, 6); set(0, 809); pad ~$; seen(2, 8); leaks(-1) = 40; leaks(0) = 1; leaks(19) = 20; leaks(20) = 1001; leaks(39) = 1020");
+    BOOK.run("set(2, 6); set(0, 10); pad ~$; leaks(-1) = 102; leaks(0) = 1; leaks(1) = 1001");
     BOOK.run("set(2, 6); set(0, 4000); pad ~$; seen(2, 20); leaks(-1) = 100; leaks(99) = 100; forget(); seen(2, 19); leaks(-1) = 40; leaks(0) = 101; leaks(20) = 1001");
   }
 
@@ -134,7 +145,7 @@ public final class EdgesOfLeaksTest {
 
   private static void where() {
     BOOK.words("ACTS that are in some, as bits of the first 30");
-    BOOK.run("where() = 0; pad ~; where() = 1; set(0, 9); where() = 0");
+    BOOK.run("where() = 0; pad ~; where() = 1; set(0, 10); leaks(-1) = 1; where() = 1; set(0, 9); where() = 0");
     String plan = "pad " + "~".repeat(31) + "; ";
     BOOK.run(plan + "where() = 1073741823; seen(30, 4); leaks(-1) = 80; leaks(0) = 30001; where() = 0");
     BOOK.run(plan + "seen(29, 4); leaks(-1) = 160; where() = 536870912; seen(30, 3); leaks(-1) = 20; leaks(0) = 29001; where() = 536870912");
@@ -158,10 +169,92 @@ public final class EdgesOfLeaksTest {
     BOOK.run("set(0, 10); pad ~; weigh(0) = 0; weigh(1) = 1");
     BOOK.run("set(0, 4000); pad " + "~".repeat(60) + "; seen(60, 19); weigh(0) = 29; weigh(1) = 600");
     BOOK.run("set(0, 4000); pad " + "~".repeat(60) + "; seen(59, 20); weigh(0) = 59; weigh(1) = 20");
-    BOOK.words("WEIGH: the least");
+    tried("~a~", 800, 44);
+    tried("~a~a~a", 803, 44);
+    tried("a~$~a", 3999, 44);
+    tried("$a$a~", 3900, 44);
+    tried("~$$~", 2500, 44);
+    tried("~~$~$~", 3400, 44, 6, 19);
+    tried("~~$~$~", 3400, 44, 6, 20);
+    tried("aaa$aaa$aaa", 3333, 44);
+    tried("aaa$aaa$aaa", 3333, 44, 0, 16, 5, 19);
+    tried("aaaaaaaaaaaaaaaaaa", 1000, 44, 9, 2);
+    tried("~a$a~a$a~a$a~", 1999, 44, 7, 15);
+    // What is LEFT is a whole MARK more, or a quarter less than that.
+    tried("~a", 820, 44, 2, 3);
+    tried("~", 209, 44);
+    tried("~", 210, 44);
+    tried("~$", 209, 44);
+    tried("~$", 200, 44);
+    tried("~$a", 4000, 201);
+    tried("~a$a", 4000, 201);
+    tried("$$a~", 3999, 200);
+    tried("~~a~", 800, 200);
+    tried("~$~a", 100, 201);
+    tried("$$$$", 0, 44, 4, 19);
+    tried("$$$$$", 4000, 44, 5, 19);
+    BOOK.words("the least; how many");
     BOOK.run("pad ~~; seen(1, 3); weigh(0) = 0; weigh(1) = 20; pad ~~~; weigh(0) = 0; weigh(1) = 20");
     BOOK.words("Promise 24: WEIGH: the ACT (what = 0), how many (1); NONE: there are no LEAKS");
     BOOK.run("weigh(0) = NONE; weigh(1) = NONE; pad ~; set(0, 9); weigh(0) = NONE; weigh(1) = NONE; set(0, 10); weigh(0) = 0; weigh(1) = 1; seen(2, 0); weigh(0) = NONE; weigh(1) = NONE");
+  }
+
+  /** All LEAKS of a PLAN of ~, $ and one MEAL, found by trying each; sights are twos of ACTS and MARK. */
+  private static void tried(String plan, int left, int price, int... sights) {
+    int acts = plan.length();
+    int found = 0;
+    int where = 0;
+    int[][] byMark = new int[acts][21];
+    String meal = price == 44 ? "" : "meal(0, 4, " + (price - 176) + ", 1); plain(0, 0, 0) = " + price + "; ";
+    StringBuilder steps = new StringBuilder(CAMP + meal + "set(0, " + left + "); pad " + plan);
+    for (int s = 0; s < sights.length; s += 2) {
+      steps.append("; seen(" + sights[s] + ", " + sights[s + 1] + ")");
+    }
+    for (int act = 0; act < acts; act++) {
+      for (int v = 1; v <= 200; v++) {
+        int[] lefts = lefts(plan, left, price, 1000 * act + v);
+        boolean fits = lefts != null;
+        for (int s = 0; s < sights.length && fits; s += 2) {
+          fits = lefts[sights[s]] / 200 == sights[s + 1];
+        }
+        if (fits) {
+          steps.append(found % 40 == 0 ? "; leaks(" + found + ") = " + (1000 * act + v) : "");
+          found++;
+          where |= 1 << act;
+          for (int read = 0; read < acts; read++) {
+            byMark[read][lefts[read + 1] / 200]++;
+          }
+        }
+      }
+    }
+    int best = -6;
+    int most = -6;
+    for (int read = 0; read < acts && found > 0; read++) {
+      int here = java.util.Arrays.stream(byMark[read]).max().getAsInt();
+      if (best < 0 || here < most) {
+        best = read;
+        most = here;
+      }
+    }
+    BOOK.run(steps + "; leaks(-1) = " + found + "; leaks(" + found + ") = NONE; where() = " + where + "; weigh(0) = " + best + "; weigh(1) = " + most);
+  }
+
+  /** LEFT behind 0 ACTS and on; null, if it is not enough. */
+  private static int[] lefts(String plan, int left, int price, int leak) {
+    int[] lefts = new int[plan.length() + 1];
+    lefts[0] = left;
+    for (int act = 0; act < plan.length(); act++) {
+      int more = plan.charAt(act) == 'a' ? -price : plan.charAt(act) == '$' ? 1000 : 0;
+      lefts[act + 1] = Math.min(4000, lefts[act] + more);
+      if (lefts[act + 1] < 0) {
+        return null;
+      }
+      lefts[act + 1] -= act == leak / 1000 ? 10 * (leak % 1000) : 0;
+      if (lefts[act + 1] < 0) {
+        return null;
+      }
+    }
+    return lefts;
   }
 
   private static void weighRefused() {
@@ -227,6 +320,12 @@ public final class EdgesOfLeaksTest {
     // The shop comes too late, or in time; what it sells beyond a full can is not there.
     BOOK.run(CAMP + "set(0, 44); pad a$; gust(4, 0, 0) = 3; gust(4, 0, 1) = 5; pad $a; gust(4, 0, 0) = 1; gust(4, 0, 1) = 1");
     BOOK.run("meal(0, 4, 60, 1); set(2, 6); set(0, 4000); pad $" + "asoh".repeat(7) + "; gust(5, 0, 0) = 0; pad $" + "asoh".repeat(6) + "; gust(5, 0, 0) = 1; gust(5, 0, 1) = 2");
+    // What the shop sells, and what the can holds, to the quarter: 1000 each, 91 each.
+    String gale = "meal(0, 4, 60, 1); meal(1, 1, 3, 1); day(0, 4, false); set(2, 6); ";
+    BOOK.run(gale + "set(0, 0); pad $asoh; gust(5, 0, 0) = 1; pad $asohb; gust(5, 0, 0) = 0; set(0, 90); gust(5, 0, 0) = 0; set(0, 91); gust(5, 0, 0) = 1");
+    BOOK.run(gale + "set(0, 4000); pad $" + "asoh".repeat(4) + "; gust(5, 0, 0) = 1; pad $" + "asoh".repeat(3) + "b".repeat(11) + "; gust(5, 0, 0) = 0; set(0, 3000); gust(5, 0, 0) = 0; pad $" + "asoh".repeat(4) + "; gust(5, 0, 0) = 1; set(0, 2999); gust(5, 0, 0) = 0");
+    BOOK.words("Promise 25: GUST: that all can be (what = 0), the mean (1)");
+    BOOK.run(CAMP + "set(0, 44); pad a; gust(5, 0, 0) = 1; gust(5, 0, 1) = 2; gust(5, 1, 0) = 55; gust(5, 1, 1) = 1");
     BOOK.words("Fractions are told in lowest terms by part: 0 the upper, 1 the lower number");
     BOOK.run(CAMP + "set(0, 44); pad a; gust(5, 0, 0) = 1; gust(5, 0, 1) = 2; gust(2, 0, 0) = 4; gust(2, 0, 1) = 5; gust(2, 1, 0) = 242; gust(2, 1, 1) = 5; gust(5, 1, 0) = 55; gust(5, 1, 1) = 1; gust(10, 0, 0) = 0; gust(10, 0, 1) = 1");
     BOOK.run(CAMP + "set(0, 352); pad a.a.a.a.a.a.a.a; gust(5, 0, 0) = 1; gust(5, 0, 1) = 256; gust(1, 0, 0) = 43046721; gust(1, 0, 1) = 100000000; gust(9, 0, 0) = 1; gust(9, 0, 1) = 100000000");

@@ -207,7 +207,11 @@ public final class EdgesOfPlansTest {
     BOOK.run(cold + "pad ~; done() = 1; behind(2) = 1; pad ah; judge(1) = 3; pad .; behind(2) = 0; pad .ah; judge(0) = NONE; pad ..; behind(2) = 1");
     BOOK.run(cold + "pad ~~; done() = 2; pad ~.; done() = 2; behind(2) = 0; pad .; behind(2) = 1");
     BOOK.run(cold + "set(4, 12); pad ~.; done() = 2; told(5) = 13; behind(2) = 0; pad ah; judge(0) = NONE; pad ~; done() = 1; behind(2) = 0; pad .; judge(1) = 6");
+    // Another DAY is not the one that is warmed, and another night is not the one in the bag.
     BOOK.run(cold + "pad ~.; done() = 2; set(4, 3); behind(2) = 1; pad ah; judge(1) = 3");
+    BOOK.run(cold + "pad .~.; done() = 3; set(4, 0); behind(2) = 1; pad ah; judge(1) = 3; pad .; behind(2) = 1; set(4, 3); pad; behind(2) = 1");
+    BOOK.run(cold + "pad ~.; done() = 2; set(4, 0); pad .; behind(2) = 1; done() = 1; behind(2) = 1");
+    BOOK.run(cold + "pad ~; done() = 1; set(4, 2); pad .; behind(2) = 1; pad .ah; judge(1) = 3");
   }
 
   private static void plain() {

@@ -62,7 +62,7 @@ public final class EdgesOfPortionsTest {
     BOOK.run("shared(0, 0) = 0; shared(0, 13) = 0");
     BOOK.words("whether they boil hot enough or not");
     BOOK.run("meal(0, 1, 0, 100); set(1, 60); shared(100000, 0) = 44; set(0, 0); shared(100000, 0) = 44; shared(900000, 0) = 396");
-    BOOK.words("SHARED: on a DAY");
+    BOOK.words("on a DAY (with a lid");
     BOOK.run(ONE + "day(0, 1, false); day(13, 4, true); shared(100000, 0) = 55; shared(100000, 1) = 44; shared(100000, 13) = 88; set(4, 13); shared(100000, 0) = 55");
   }
 
@@ -93,6 +93,11 @@ public final class EdgesOfPortionsTest {
         + "; set(4, 5); most(100000, 5, 0) = 1; most(100000, 13, 0) = 1; set(4, 6); most(100000, 6, 0) = 0; most(100000, 13, 0) = 0; set(0, 88); most(100000, 13, 0) = 1");
     BOOK.run(windy + "day(0, 0, false); day(5, 4, false); set(0, 44); most(100000, 0, 0) = 1; set(4, 1); most(100000, 13, 0) = 0; day(13, 0, false); most(100000, 12, 0) = 0"
         + "; most(100000, 13, 0) = 1; set(4, 13); most(100000, 13, 0) = 1; most(100000, 13, 1) = 1");
+    String gales = "meal(0, 1, 0, 1); ";
+    for (int d = 0; d < 14; d++) {
+      gales += "day(" + d + ", 4, false); ";
+    }
+    BOOK.run(gales + "set(0, 87); most(100000, 0, 0) = 0; most(100000, 13, 0) = 0; set(0, 88); most(100000, 13, 0) = 1; set(3, 1); set(0, 65); most(100000, 13, 0) = 0; set(0, 66); most(100000, 13, 0) = 1");
     BOOK.words("(as many on one as one likes)");
     BOOK.run(ONE + "set(0, 4000); most(900000, 0, 0) = 9; set(4, 13); most(900000, 13, 0) = 9");
     BOOK.words("each boiled by itself");
@@ -133,6 +138,8 @@ public final class EdgesOfPortionsTest {
     BOOK.run(SIX + "set(4, 5); most(940000, 4, 0) = UNKNOWN; most(940000, 14, 0) = UNKNOWN; most(940000, 5, 0) = FULL");
     BOOK.run("meal(0, 1, 0, 100); meal(1, 1, 0, 100); set(1, 60); most(930000, 0, 0) = 0; most(940000, 0, 0) = FULL");
     BOOK.run("meal(0, 1, 0, 1); meal(1, 1, 0, 1); most(940010, 0, 0) = UNKNOWN");
+    BOOK.words("Promise 15: MOST: how many (what = 0), WORTH (1)");
+    BOOK.run("meal(0, 1, 60, 1); most(200000, 0, 0) = 2; most(200000, 0, 1) = 122");
     BOOK.words("most: They change nothing");
     BOOK.changesNothing(ONE + "pad a; set(4, 3)", "most(-1, 5, 0) = OUTSIDE; most(0, 5, 2) = OUTSIDE; most(0, 14, 0) = UNKNOWN; most(0, 2, 0) = UNKNOWN; most(1, 5, 0) = UNKNOWN; most(900000, 5, 1)");
     BOOK.changesNothing(SIX + "pad a", "most(940000, 5, 0) = FULL; most(999999, 5, 1) = FULL");
@@ -152,6 +159,13 @@ public final class EdgesOfPortionsTest {
     }
     BOOK.run(steps.toString());
     BOOK.run(ONE + "set(4, 13); least(100000, 13) = 44; least(200000, 13) = 88; least(300000, 13) = NONE; set(4, 12); least(300000, 13) = 132; least(400000, 13) = 176; least(500000, 13) = NONE; least(300000, 12) = NONE");
+    for (int m = 0; m < 6; m++) {
+      BOOK.run("meal(" + m + ", 2, 0, 1); day(0, 4, false); least(" + 3 * TENS[m] + ", 0) = NONE; least(" + 2 * TENS[m] + ", 0) = 352; least(" + 2 * TENS[m] + ", 1) = 176; least(" + 3 * TENS[m] + ", 1) = 352");
+    }
+    // DAYS on which nothing was boiled when it was asked before are none of this time.
+    for (int wind = 0; wind <= 4; wind++) {
+      BOOK.run(ONE + "day(0, " + wind + ", false); least(0, 0) = 0; day(0, " + (wind + 1) % 5 + ", false); least(300000, 0) = NONE; least(200000, 0) = " + (88 + 22 * ((wind + 1) % 5)) + "; least(300000, 0) = NONE");
+    }
     BOOK.words("the least that is burnt (whatever is LEFT)");
     BOOK.run(ONE + "set(0, 0); least(200000, 0) = 88; set(0, 4000); least(200000, 0) = 88; least(0, 0) = 0; least(0, 13) = 0");
     BOOK.run("meal(0, 1, 0, 1); meal(1, 4, 60, 1); day(0, 4, false); day(1, 1, false); least(200000, 0) = 176; least(200000, 1) = 110; least(300000, 1) = 198; least(200000, 2) = 88"

@@ -47,6 +47,8 @@ public final class EdgesOfRestTest {
     // 3, 0, 2, 0 had: the second and the last get two each, then the second, third and last one more by turns.
     BOOK.run(ONE + "set(0, 176); shares(0, 3000200, 0) = 0; shares(0, 3000200, 1) = 2; shares(0, 3000200, 2) = 0; shares(0, 3000200, 3) = 2; set(0, 220); shares(0, 3000200, 1) = 3; shares(0, 3000200, 3) = 2"
         + "; set(0, 264); shares(0, 3000200, 2) = 1; set(0, 308); shares(0, 3000200, 3) = 3; shares(0, 3000200, 0) = 0; set(0, 352); shares(0, 3000200, 0) = 1; shares(0, 3000200, 1) = 3");
+    BOOK.words("they are dealt, one by one");
+    BOOK.run(ONE + "set(0, 132); shares(0, 2, 0) = 1; shares(0, 2, 1) = 1; shares(0, 2, 2) = 1; shares(0, 2, 3) = 0; shares(0, 5, 3) = 0; set(0, 264); shares(0, 2, 0) = 2; shares(0, 2, 2) = 2; shares(0, 2, 3) = 0; set(0, 440); shares(0, 2, 3) = 1; shares(0, 2, 0) = 3");
     BOOK.words("hikers 0 to 3 have drunk so much cocoa each (0 to 99)");
     BOOK.run(ONE + "set(0, 4000); shares(0, 99000000, 0) = 0; shares(0, 99000000, 1) = 30; shares(0, 990000, 1) = 0; shares(0, 990000, 0) = 30; shares(0, 9900, 2) = 0; shares(0, 9900, 3) = 30; shares(0, 99, 3) = 0; shares(0, 99, 2) = 30");
     BOOK.words("Promise 26: what a hiker (0 to 3) gets, four having drunk so much (a number to a hundred, the highest the first's)");
@@ -84,6 +86,16 @@ public final class EdgesOfRestTest {
     return told;
   }
 
+  private static int seedOf(int meal) {
+    for (int seed = 0; seed <= 9999; seed++) {
+      long x = (75L * seed + 74) % 65537;
+      if (x % 6 == meal && (75 * x + 74) % 65537 % 6 == meal) {
+        return seed;
+      }
+    }
+    throw new IllegalStateException("no seed draws MEAL " + meal + " twice");
+  }
+
   private static String weekSteps(int left, int seed, int m) {
     long[] due = lived(left, seed, m);
     String week = "week(" + seed + ", " + m + ", ";
@@ -110,6 +122,13 @@ public final class EdgesOfRestTest {
       steps.append(weekSteps(4000, seed, 1));
     }
     BOOK.run(steps.toString());
+    BOOK.words("MEAL x left over by 6 is boiled");
+    // Seeds whose two draws are both of one MEAL, that one alone being there.
+    for (int m = 0; m < 6; m++) {
+      int seed = seedOf(m);
+      BOOK.run("meal(" + m + ", 1, 0, 1); week(" + seed + ", 1, 1) = 2; set(0, 0); week(" + seed + ", 1, 2) = 2");
+      BOOK.run("meal(" + (m + 1) % 6 + ", 1, 0, 1); week(" + seed + ", 1, 1) = 0; set(0, 0); week(" + seed + ", 1, 2) = 0");
+    }
     BOOK.words("of SNOW, if x by 6 (cut) is odd");
     // The seed 1 draws 149 (5, by 6: 24) and 11249 (5, 1874): neither is of SNOW; the seed 3 draws 299 (5, 49) and 22499 (5, 3749): both are.
     BOOK.run("meal(5, 1, 6, 1); week(1, 1, 0) = 700; week(3, 1, 0) = 612");
@@ -179,7 +198,7 @@ public final class EdgesOfRestTest {
     for (int i = 1; i <= 8; i++) {
       sights += "seen(" + i + ", " + (i <= 4 ? 4 : 3) + "); ";
     }
-    BOOK.run("pad ~~~~~~~~; " + sights + "leaks(-1) = 20; leaks(0) = 4001; image(0); forget(); " + "seen(8, 0); ".repeat(8) + "leaks(-1) = 160; restore(0); told(7) = 8; leaks(-1) = 20; leaks(0) = 4001; seen(0, 4) = FULL");
+    BOOK.run("pad ~~~~~~~~; " + sights + "leaks(-1) = 20; leaks(0) = 4001; image(0); forget(); " + "seen(60, 0); ".repeat(8) + "leaks(-1) = 0; restore(0); told(7) = 8; leaks(-1) = 20; leaks(0) = 4001; seen(0, 4) = FULL");
     BOOK.words("Promise 28: All but the PAD");
     BOOK.run(ONE + "pad a!; image(0) = 1; told(0) = 2; pad aa; restore(0) = 1; told(0) = 2; judge(3) = 2; wipe() = 2; restore(0) = 1; told(0) = 0");
     BOOK.run("image(0) = 1; pad " + "~".repeat(60) + "; restore(0) = 1; told(0) = 60; say(126) = FULL; wipe() = 60");
@@ -192,6 +211,7 @@ public final class EdgesOfRestTest {
     BOOK.run(FURNISH + "; image(1); restore(1); " + OTHERWISE + "; restore(1) = 1; " + FURNISHED);
     BOOK.run(ONE + "day(1, 0, true); image(0); pad a~.; done() = 3; told(1) = 756; told(5) = 1; restore(0) = 1; told(1) = 800; told(5) = 0; pad .; behind(2) = 1");
     BOOK.run(ONE + "day(1, 0, true); pad ~.; done() = 2; behind(2) = 0; image(0); pad .; done(); restore(0) = 1; told(5) = 1; behind(2) = 0");
+    BOOK.run(ONE + "day(1, 0, true); pad ~; done() = 1; image(0); pad .; done(); behind(2) = 0; restore(0) = 1; told(5) = 0; pad .; behind(2) = 0; image(1); pad .; done(); restore(1) = 1; pad .; behind(2) = 0");
   }
 
   private static void imagesRefused() {
