@@ -18,6 +18,8 @@ import java.util.Map;
 final class Book {
   private static final int MOST_CALLS = 512;
   private static final int NONE = -6;
+  /** Never due: no call may throw. */
+  private static final long THREW = Long.MIN_VALUE;
   private static final Map<String, Method> CALLS = calls();
   private final String name;
   private String words = "";
@@ -61,9 +63,9 @@ final class Book {
    * that would be right if only their lowest one or two bytes were looked at.
    */
   Book bounds(String setting, String call, int least, int greatest, String refusal) {
-    long[] wrong = {Integer.MIN_VALUE, least - 1L, greatest + 1L, Integer.MAX_VALUE, least + 256L, greatest - 256L,
+    long[] refused = {Integer.MIN_VALUE, least - 1L, greatest + 1L, Integer.MAX_VALUE, least + 256L, greatest - 256L,
         least + 65536L, greatest - 65536L, Integer.MIN_VALUE + (long) least, Integer.MIN_VALUE + (long) greatest};
-    for (long v : wrong) {
+    for (long v : refused) {
       if (v < least || v > greatest) {
         run(setting + "\n" + call.replace("?", String.valueOf(v)) + " = " + refusal);
       }
@@ -73,18 +75,20 @@ final class Book {
     return this;
   }
 
-  /** Makes two objects alike, makes the call on one of them alone, and asks all of both. */
-  Book changesNothing(String setting, String refused) {
-    Can touched = new Can();
-    Can twin = new Can();
-    on(touched, setting);
-    on(twin, setting);
-    on(touched, refused);
-    List<String> all = Questions.all();
-    for (String question : all) {
-      long got = touched.ask(question);
-      long want = twin.ask(question);
-      due(setting + "; " + refused + "; .. " + question, got, want);
+  /**
+   * Makes two objects alike, makes the calls on one of them alone, and asks all of both; then the same with two others,
+   * whose PLAN is done first, for what done() does is not to hide what the calls did.
+   */
+  Book changesNothing(String setting, String calls) {
+    for (List<String> questions : List.of(Questions.asItIs(), Questions.behindDone())) {
+      Can touched = new Can();
+      Can twin = new Can();
+      on(touched, setting);
+      on(twin, setting);
+      on(touched, calls);
+      for (String question : questions) {
+        due(setting + "; " + calls + "; .. " + question, touched.ask(question), twin.ask(question));
+      }
     }
     return this;
   }
@@ -121,7 +125,7 @@ final class Book {
   void due(String call, long got, long want) {
     askedHere++;
     asked++;
-    if (got != want) {
+    if (got != want || got == THREW) {
       wrong++;
       System.out.println("\"" + words + "\": " + call + " answered " + got + ", due is " + want);
     }
@@ -189,32 +193,52 @@ final class Book {
       }
       try {
         return ((Number) m.invoke(can, args)).longValue();
-      } catch (InvocationTargetException | IllegalAccessException e) {
-        throw new IllegalStateException(call + " threw " + e.getCause(), e);
+      } catch (InvocationTargetException e) {
+        System.out.println(call + " threw " + e.getCause());
+        return THREW;
+      } catch (IllegalAccessException e) {
+        throw new IllegalStateException(call, e);
       }
     }
   }
 
-  /** What two objects are asked to see whether they are alike: first as they are, then behind done and restore. */
+  /** What two objects are asked to see whether they are alike. */
   private static final class Questions {
-    private static List<String> all() {
+    private static List<String> asItIs() {
       List<String> list = new ArrayList<>();
       told(list);
       ofThePlan(list);
       list.add("wipe()");
-      // Plans that any object can be asked of show the bag, which told() does not.
-      for (String sign : new String[] {"say(46)", "behind(2)"}) {
-        list.add(sign);
-      }
-      list.add("wipe()");
-      list.add("behind(2)");
-      ofPortions(list);
+      ofAnyPlan(list);
+      add(list, "mark()", "most(200000, 13, 0)", "least(200000, 13)", "ends(0)", "keep(0, 0)", "shares(0, 0, 0)",
+          "week(1, 9, 0)", "week(1, 9, 1)", "week(1, 9, 2)");
       for (int k = 0; k < 2; k++) {
         list.add("restore(" + k + ")");
         told(list);
-        list.add("leaks(-1)");
+        ofAnyPlan(list);
       }
       return list;
+    }
+
+    private static List<String> behindDone() {
+      List<String> list = new ArrayList<>();
+      list.add("done()");
+      told(list);
+      list.add("wipe()");
+      ofAnyPlan(list);
+      return list;
+    }
+
+    /** PLANS that can be in any state but on DAY 13 show the bag and the SIGHTS, which told() does not. */
+    private static void ofAnyPlan(List<String> list) {
+      add(list, "behind(2)", "say(126)", "say(126)", "leaks(-1)", "leaks(0)", "where()", "wipe()");
+      add(list, "say(46)", "behind(2)", "wipe()");
+    }
+
+    private static void add(List<String> list, String... calls) {
+      for (String call : calls) {
+        list.add(call);
+      }
     }
 
     private static void told(List<String> list) {
@@ -232,20 +256,10 @@ final class Book {
     }
 
     private static void ofThePlan(List<String> list) {
-      String[] calls = {"fault()", "judge(0)", "judge(1)", "judge(2)", "judge(3)", "behind(0)", "behind(1)", "behind(2)",
-          "cost(0, 0)", "cost(0, 1)", "cost(59, 0)", "spent(0)", "spent(13)", "leaks(-1)", "leaks(0)", "where()",
-          "weigh(0)", "weigh(1)", "gust(3, 0, 0)", "gust(3, 0, 1)", "gust(3, 1, 0)", "gust(3, 1, 1)"};
-      for (String call : calls) {
-        list.add(call);
-      }
-    }
-
-    private static void ofPortions(List<String> list) {
-      String[] calls = {"mark()", "most(200000, 13, 0)", "least(200000, 13)", "ends(0)", "keep(0, 0)",
-          "shares(0, 0, 0)", "week(1, 9, 0)", "week(1, 9, 1)", "week(1, 9, 2)"};
-      for (String call : calls) {
-        list.add(call);
-      }
+      add(list, "fault()", "judge(0)", "judge(1)", "judge(2)", "judge(3)", "behind(0)", "behind(1)", "behind(2)");
+      add(list, "cost(0, 0)", "cost(0, 1)", "cost(1, 0)", "cost(3, 0)", "cost(4, 0)", "cost(59, 0)", "spent(0)", "spent(13)");
+      add(list, "leaks(-1)", "leaks(0)", "where()", "weigh(0)", "weigh(1)");
+      add(list, "gust(3, 0, 0)", "gust(3, 0, 1)", "gust(3, 1, 0)", "gust(3, 1, 1)");
     }
   }
 }

@@ -82,7 +82,8 @@ public final class EdgesOfDaysTest {
     BOOK.words("HEIGHT (0 to 60 hundreds of metres; 0 at first)");
     BOOK.run("told(2) = 0; told(8) = 100; set(1, 0) = 0");
     BOOK.bounds("", "set(1, ?)", 0, 60, "OUTSIDE");
-    BOOK.run("set(1, 60) = 0; set(1, 61) = OUTSIDE; told(2) = 60; set(1, -1) = OUTSIDE; told(2) = 60; set(1, 0) = 60; told(2) = 0");
+    BOOK.run("set(1, 60) = 0; set(1, 61) = OUTSIDE; told(2) = 60; set(1, -1) = OUTSIDE; told(2) = 60; set(1, 0) = 60; "
+        + "told(2) = 0");
     BOOK.words("water boils at 100 less HEIGHT by 3 (cut) degrees");
     StringBuilder all = new StringBuilder("meal(0, 1, 0, 80); pad a");
     for (int h = 0; h <= 60; h++) {
@@ -98,7 +99,8 @@ public final class EdgesOfDaysTest {
     BOOK.words("SHUT (0 to 6; 0 at first)");
     BOOK.run("told(3) = 0; pad $; judge(1) = 5; set(2, 0) = 0");
     BOOK.bounds("", "set(2, ?)", 0, 6, "OUTSIDE");
-    BOOK.run("set(2, 6) = 0; set(2, 7) = OUTSIDE; told(3) = 6; set(2, -1) = OUTSIDE; told(3) = 6; set(2, 0) = 6; told(3) = 0");
+    BOOK.run("set(2, 6) = 0; set(2, 7) = OUTSIDE; told(3) = 6; set(2, -1) = OUTSIDE; told(3) = 6; set(2, 0) = 6; "
+        + "told(3) = 0");
     BOOK.words("the shop is shut on DAYS that are left over by 7 as SHUT");
     for (int shut = 0; shut < 7; shut++) {
       StringBuilder steps = new StringBuilder("set(2, " + shut + "); pad $");
@@ -145,7 +147,8 @@ public final class EdgesOfDaysTest {
 
   private static void prices() {
     BOOK.words("11 times QUARTS times the sum of 4");
-    BOOK.run("meal(0, 1, 0, 1); plain(0, 0, 0) = 44; meal(0, 2, 0, 1); plain(0, 0, 0) = 88; meal(0, 3, 0, 1); plain(0, 0, 0) = 132"
+    BOOK.run("meal(0, 1, 0, 1); plain(0, 0, 0) = 44; meal(0, 2, 0, 1); plain(0, 0, 0) = 88; meal(0, 3, 0, 1); "
+        + "plain(0, 0, 0) = 132"
         + "; meal(0, 4, 0, 1); plain(0, 0, 0) = 176");
     BOOK.words("of 1, if there is no lid");
     BOOK.run("meal(0, 3, 9, 1); plain(0, 0, 2) = 174; pad ao; judge(2) = 174; pad a; judge(2) = 141");
@@ -167,7 +170,8 @@ public final class EdgesOfDaysTest {
     BOOK.run("meal(0, 1, 60, 1); plain(0, 0, 0) = 104; plain(0, 0, 4) = 175; plain(0, 0, 1) = 148; plain(0, 0, 5) = 230"
         + "; meal(0, 1, 1, 1); plain(0, 0, 0) = 45; plain(0, 0, 4) = 57; meal(0, 1, 0, 1); plain(0, 0, 4) = 55");
     BOOK.words("or nothing, if it is WRAPPED");
-    BOOK.run("meal(0, 1, 60, 1); plain(0, 0, 8) = 44; plain(0, 0, 12) = 55; plain(0, 0, 9) = 88; pad ax; judge(2) = 44; pad ahx; judge(2) = 55");
+    BOOK.run("meal(0, 1, 60, 1); plain(0, 0, 8) = 44; plain(0, 0, 12) = 55; plain(0, 0, 9) = 88; pad ax; judge(2) = 44; "
+        + "pad ahx; judge(2) = 55");
     BOOK.words("To boil a MEAL costs");
     BOOK.run("meal(0, 4, 60, 1); day(0, 4, false); set(0, 4000); pad asoh; judge(2) = 1000; plain(0, 0, 7) = 1000");
   }
@@ -216,7 +220,8 @@ public final class EdgesOfDaysTest {
     mayFollow("a$", "abcdef.~$");
     StringBuilder ways = new StringBuilder("meal(0, 2, 7, 1); set(0, 4000)");
     for (int set = 0; set < 16; set++) {
-      String text = "a" + (set % 2 == 1 ? "s" : "") + (set / 2 % 2 == 1 ? "o" : "") + (set / 4 % 2 == 1 ? "h" : "") + (set / 8 == 1 ? "x" : "");
+      String text = "a" + (set % 2 == 1 ? "s" : "") + (set / 2 % 2 == 1 ? "o" : "") + (set / 4 % 2 == 1 ? "h" : "")
+          + (set / 8 == 1 ? "x" : "");
       int sum = 4 + set / 2 % 2 + set / 4 % 2;
       int minutes = set / 8 == 1 ? 0 : set / 4 % 2 == 1 ? 14 : 7;
       int price = 22 * sum * (set % 2 == 1 ? 2 : 1) + minutes;
@@ -229,7 +234,8 @@ public final class EdgesOfDaysTest {
 
   private static void faults() {
     BOOK.words("THE FAULT: the place (from 0 on) of the first sign that can not stand there");
-    BOOK.run("pad !; fault() = 0; pad s; fault() = 0; pad a!; fault() = 1; pad ahs; fault() = 2; pad ahsx; fault() = 2; pad !!!; fault() = 0");
+    BOOK.run("pad !; fault() = 0; pad s; fault() = 0; pad a!; fault() = 1; pad ahs; fault() = 2; pad ahsx; fault() = 2; "
+        + "pad !!!; fault() = 0");
     String sixty = "~".repeat(58);
     BOOK.run("pad " + sixty + "a!; fault() = 59; say(97) = FULL; fault() = 59");
     BOOK.run("pad " + sixty + "!a; fault() = 58");
@@ -241,43 +247,55 @@ public final class EdgesOfDaysTest {
     BOOK.words("1 there is no such MEAL");
     BOOK.run("meal(0, 1, 0, 1); pad b; judge(1) = 1; meal(1, 1, 0, 1); judge(1) = NONE");
     BOOK.words("2 water does not boil at so many DEGREES");
-    BOOK.run("meal(0, 1, 0, 100); pad a; judge(1) = NONE; set(1, 2); judge(1) = NONE; set(1, 3); judge(1) = 2; meal(0, 1, 0, 99); judge(1) = NONE");
+    BOOK.run("meal(0, 1, 0, 100); pad a; judge(1) = NONE; set(1, 2); judge(1) = NONE; set(1, 3); judge(1) = 2; "
+        + "meal(0, 1, 0, 99); judge(1) = NONE");
     BOOK.run("meal(0, 1, 0, 80); set(1, 60); pad a; judge(1) = NONE; meal(0, 1, 0, 81); judge(1) = 2");
     BOOK.words("3 a high flame on a COLD DAY");
     BOOK.run("meal(0, 1, 0, 1); day(0, 0, true); pad ah; judge(1) = 3; pad asohx; judge(1) = 3; pad asox; judge(1) = NONE"
         + "; day(0, 4, false); pad ah; judge(1) = NONE");
     BOOK.words("4 so much is not LEFT");
-    BOOK.run("meal(0, 1, 0, 1); pad a; set(0, 44); judge(1) = NONE; behind(0) = 0; set(0, 43); judge(1) = 4; set(0, 0); judge(1) = 4"
+    BOOK.run("meal(0, 1, 0, 1); pad a; set(0, 44); judge(1) = NONE; behind(0) = 0; set(0, 43); judge(1) = 4; set(0, 0); "
+        + "judge(1) = 4"
         + "; pad aa; set(0, 88); judge(1) = NONE; set(0, 87); judge(0) = 1; judge(1) = 4");
     BOOK.run("meal(0, 4, 60, 1); day(0, 4, false); set(0, 1000); pad asoh; judge(1) = NONE; set(0, 999); judge(1) = 4");
     BOOK.words("5 the shop is shut");
     BOOK.run("pad $; judge(1) = 5; behind(0) = STATE; set(2, 1); judge(1) = NONE; behind(0) = 1800");
     BOOK.words("6 it is DAY 13 (. alone)");
-    BOOK.run("meal(0, 1, 0, 1); set(2, 1); set(4, 13); pad .; judge(0) = 0; judge(1) = 6; pad a~$; judge(0) = NONE; pad a~$.; judge(0) = 3"
+    BOOK.run("meal(0, 1, 0, 1); set(2, 1); set(4, 13); pad .; judge(0) = 0; judge(1) = 6; pad a~$; judge(0) = NONE; "
+        + "pad a~$.; judge(0) = 3"
         + "; judge(1) = 6; set(4, 12); judge(0) = NONE; pad ..; judge(0) = 1; judge(1) = 6");
     BOOK.run("pad ..............; judge(0) = 13; judge(1) = 6; pad .............; judge(0) = NONE");
     BOOK.words("An ACT can not be for the least of these reasons");
     // 1 and 3; a MEAL that is not there is not too hot and costs nothing.
     BOOK.run("day(0, 0, true); set(0, 0); pad ah; judge(1) = 1");
-    BOOK.run("meal(0, 1, 0, 100); day(0, 0, true); set(0, 0); set(1, 60); pad ah; judge(1) = 2; day(0, 0, false); judge(1) = 2"
-        + "; set(0, 4000); day(0, 0, true); judge(1) = 2; set(1, 0); judge(1) = 3; set(0, 0); judge(1) = 3; day(0, 0, false); judge(1) = 4"
+    BOOK.run("meal(0, 1, 0, 100); day(0, 0, true); set(0, 0); set(1, 60); pad ah; judge(1) = 2; day(0, 0, false); "
+        + "judge(1) = 2"
+        + "; set(0, 4000); day(0, 0, true); judge(1) = 2; set(1, 0); judge(1) = 3; set(0, 0); judge(1) = 3; "
+            + "day(0, 0, false); judge(1) = 4"
         + "; set(0, 4000); judge(1) = NONE");
     BOOK.words("the first act that can not be, and why");
-    BOOK.run("meal(0, 1, 0, 1); set(0, 43); pad $ab; judge(0) = 0; judge(1) = 5; set(2, 6); judge(0) = 2; judge(1) = 1; pad ab$; judge(0) = 0; judge(1) = 4");
+    BOOK.run("meal(0, 1, 0, 1); set(0, 43); pad $ab; judge(0) = 0; judge(1) = 5; set(2, 6); judge(0) = 2; judge(1) = 1; "
+        + "pad ab$; judge(0) = 0; judge(1) = 4");
   }
 
   private static void bag() {
     BOOK.words("~ (the can sleeps in the bag this night: the next DAY is not COLD)");
-    BOOK.run("meal(0, 1, 0, 1); day(0, 0, true); day(1, 0, true); day(2, 0, true); pad ~; behind(2) = 1; pad ~ah; judge(0) = 1; judge(1) = 3"
-        + "; pad ~.ah; judge(0) = NONE; behind(2) = 0; pad a~.ah; judge(0) = NONE; pad ~a.ah; judge(0) = NONE; pad .ah; judge(1) = 3");
-    BOOK.run("meal(0, 1, 0, 1); day(13, 0, true); set(4, 12); pad .ah; judge(1) = 3; pad ~.ah; judge(0) = NONE; behind(2) = 0");
+    BOOK.run("meal(0, 1, 0, 1); day(0, 0, true); day(1, 0, true); day(2, 0, true); pad ~; behind(2) = 1; pad ~ah; "
+        + "judge(0) = 1; judge(1) = 3"
+        + "; pad ~.ah; judge(0) = NONE; behind(2) = 0; pad a~.ah; judge(0) = NONE; pad ~a.ah; judge(0) = NONE; pad .ah; "
+            + "judge(1) = 3");
+    BOOK.run("meal(0, 1, 0, 1); day(13, 0, true); set(4, 12); pad .ah; judge(1) = 3; pad ~.ah; judge(0) = NONE; "
+        + "behind(2) = 0");
     BOOK.words("a night in the bag warms that one alone");
     BOOK.run("meal(0, 1, 0, 1); day(0, 0, true); day(1, 0, true); day(2, 0, true); day(3, 0, true); pad ~..; behind(2) = 1"
-        + "; pad ~.ah.ah; judge(0) = 4; judge(1) = 3; pad ~.~.ah; judge(0) = NONE; pad .~.ah; judge(0) = NONE; pad ~..~.ah; judge(0) = NONE"
+        + "; pad ~.ah.ah; judge(0) = 4; judge(1) = 3; pad ~.~.ah; judge(0) = NONE; pad .~.ah; judge(0) = NONE; pad ~..~.ah; "
+            + "judge(0) = NONE"
         + "; pad ~.ah.~.ah; judge(0) = NONE");
     BOOK.words("A second ~ on a DAY is nothing more");
-    BOOK.run("meal(0, 1, 0, 1); day(1, 0, true); day(2, 0, true); pad ~~.; behind(2) = 0; judge(0) = NONE; pad ~~..; behind(2) = 1"
-        + "; pad ~~~.ah.; behind(2) = 1; pad ~a~.; behind(2) = 0; pad ~a~..; behind(2) = 1; pad ~~.; done() = 3; behind(2) = 0");
+    BOOK.run("meal(0, 1, 0, 1); day(1, 0, true); day(2, 0, true); pad ~~.; behind(2) = 0; judge(0) = NONE; pad ~~..; "
+        + "behind(2) = 1"
+        + "; pad ~~~.ah.; behind(2) = 1; pad ~a~.; behind(2) = 0; pad ~a~..; behind(2) = 1; pad ~~.; done() = 3; "
+            + "behind(2) = 0");
   }
 
   private static void newObject() {
@@ -295,23 +313,29 @@ public final class EdgesOfDaysTest {
     steps.append("; wipe() = 0; forget() = 0; fault() = NONE; mark() = 4; restore(0) = STATE; restore(1) = STATE");
     BOOK.run(steps.toString());
     // What one object is told is nothing to another.
-    BOOK.run("meal(0, 1, 0, 1); set(0, 1); set(1, 1); set(2, 1); set(3, 1); set(4, 1); day(0, 1, true); seen(1, 1); pad a; image(0); image(1)");
+    BOOK.run("meal(0, 1, 0, 1); set(0, 1); set(1, 1); set(2, 1); set(3, 1); set(4, 1); day(0, 1, true); seen(1, 1); pad a; "
+        + "image(0); image(1)");
     BOOK.run(steps.toString());
     BOOK.words("An object is used for at most 512 calls after it has been made");
-    BOOK.run("meal(0, 1, 0, 1); pad a; " + "wipe(); say(97) = 1; judge(2) = 44; ".repeat(169) + "leaks(-1) = 75; told(1) = 800");
+    BOOK.run("meal(0, 1, 0, 1); pad a; " + "wipe(); say(97) = 1; judge(2) = 44; ".repeat(169) + "leaks(-1) = 75; "
+        + "told(1) = 800");
   }
 
   private static void set() {
     BOOK.words("Promise 2: 0 LEFT, 1 HEIGHT, 2 SHUT, 3 SHIELD (1, 0), 4 the DAY: which it was");
-    BOOK.run("set(0, 11) = 800; set(1, 12) = 0; set(2, 3) = 0; set(3, 1) = 0; set(4, 13) = 0; told(1) = 11; told(2) = 12; told(3) = 3"
-        + "; told(4) = 1; told(5) = 13; set(0, 0) = 11; set(1, 0) = 12; set(2, 0) = 3; set(3, 0) = 1; set(4, 0) = 13; told(1) = 0"
+    BOOK.run("set(0, 11) = 800; set(1, 12) = 0; set(2, 3) = 0; set(3, 1) = 0; set(4, 13) = 0; told(1) = 11; told(2) = 12; "
+        + "told(3) = 3"
+        + "; told(4) = 1; told(5) = 13; set(0, 0) = 11; set(1, 0) = 12; set(2, 0) = 3; set(3, 0) = 1; set(4, 0) = 13; "
+            + "told(1) = 0"
         + "; told(2) = 0; told(3) = 0; told(4) = 0; told(5) = 0");
     BOOK.run("set(0, 7) = 800; set(0, 7) = 7; set(4, 7) = 0; set(4, 7) = 7; set(3, 1) = 0; set(3, 1) = 1");
     BOOK.words("Promise 2: 3 SHIELD (1, 0)");
     BOOK.bounds("", "set(3, ?)", 0, 1, "OUTSIDE");
-    BOOK.run("set(3, 1) = 0; set(3, 2) = OUTSIDE; told(4) = 1; set(3, -1) = OUTSIDE; told(4) = 1; set(3, 0) = 1; told(4) = 0");
+    BOOK.run("set(3, 1) = 0; set(3, 2) = OUTSIDE; told(4) = 1; set(3, -1) = OUTSIDE; told(4) = 1; set(3, 0) = 1; "
+        + "told(4) = 0");
     BOOK.words("Promise 2: 4 the DAY");
-    BOOK.run("set(4, 13) = 0; set(4, 14) = OUTSIDE; told(5) = 13; set(4, -1) = OUTSIDE; told(5) = 13; set(4, 0) = 13; told(5) = 0");
+    BOOK.run("set(4, 13) = 0; set(4, 14) = OUTSIDE; told(5) = 13; set(4, -1) = OUTSIDE; told(5) = 13; set(4, 0) = 13; "
+        + "told(5) = 0");
     BOOK.words("Promise 2: OUTSIDE");
     BOOK.bounds("", "set(?, 0)", 0, 4, "OUTSIDE");
     BOOK.bounds("", "set(?, 1)", 0, 4, "OUTSIDE");
@@ -319,9 +343,11 @@ public final class EdgesOfDaysTest {
     for (int which = 0; which < 5; which++) {
       int most = new int[] {4000, 60, 6, 1, 13}[which];
       String full = "set(0, 4000); set(1, 60); set(2, 6); set(3, 1); set(4, 13)";
+      String middle = "set(0, 2000); set(1, 30); set(2, 3); set(4, 7)";
       String[] wrong = {"-1", String.valueOf(most + 1), "MIN", "MAX"};
       for (String v : wrong) {
         BOOK.changesNothing(full, "set(" + which + ", " + v + ") = OUTSIDE");
+        BOOK.changesNothing(middle, "set(" + which + ", " + v + ") = OUTSIDE");
       }
     }
     BOOK.changesNothing("", "set(5, 0) = OUTSIDE; set(-1, 0) = OUTSIDE; set(MIN, 0) = OUTSIDE; set(MAX, 0) = OUTSIDE");
@@ -329,9 +355,11 @@ public final class EdgesOfDaysTest {
 
   private static void day() {
     BOOK.words("Promise 3: WIND of a DAY, and whether it is COLD: which WIND it was");
-    BOOK.run("day(5, 4, true) = 0; told(25) = 14; day(5, 3, false) = 4; told(25) = 3; day(5, 3, true) = 3; told(25) = 13; day(5, 0, true) = 3"
+    BOOK.run("day(5, 4, true) = 0; told(25) = 14; day(5, 3, false) = 4; told(25) = 3; day(5, 3, true) = 3; told(25) = 13; "
+        + "day(5, 0, true) = 3"
         + "; told(25) = 10; day(5, 0, false) = 0; told(25) = 0; told(24) = 0; told(26) = 0");
-    BOOK.run("day(0, 1, true) = 0; day(13, 4, true) = 0; told(20) = 11; told(33) = 14; day(0, 0, false) = 1; day(13, 0, false) = 4; told(20) = 0; told(33) = 0");
+    BOOK.run("day(0, 1, true) = 0; day(13, 4, true) = 0; told(20) = 11; told(33) = 14; day(0, 0, false) = 1; "
+        + "day(13, 0, false) = 4; told(20) = 0; told(33) = 0");
     BOOK.words("Promise 3: UNKNOWN; OUTSIDE");
     String[] days = {"-1", "14", "MIN", "MAX"};
     String[] winds = {"-1", "5", "MIN", "MAX"};
@@ -342,25 +370,30 @@ public final class EdgesOfDaysTest {
       }
     }
     for (String w : winds) {
-      BOOK.changesNothing("day(0, 2, true); day(13, 3, true)", "day(0, " + w + ", false) = OUTSIDE; day(13, " + w + ", false) = OUTSIDE");
+      BOOK.changesNothing("day(0, 2, true); day(13, 3, true)", "day(0, " + w + ", false) = OUTSIDE; day(13, " + w
+          + ", false) = OUTSIDE");
       BOOK.changesNothing("day(0, 2, false)", "day(0, " + w + ", true) = OUTSIDE");
     }
   }
 
   private static void meal() {
     BOOK.words("Promise 4: A MEAL is there (or otherwise): how many are");
-    BOOK.run("meal(5, 1, 0, 1) = 1; meal(0, 1, 0, 1) = 2; meal(5, 4, 60, 100) = 2; told(600) = 4; told(601) = 60; told(602) = 100; told(100) = 1"
-        + "; meal(2, 1, 0, 1) = 3; meal(2, 1, 0, 1) = 3; meal(1, 1, 0, 1) = 4; meal(4, 1, 0, 1) = 5; meal(3, 1, 0, 1) = 6; meal(3, 2, 0, 1) = 6");
+    BOOK.run("meal(5, 1, 0, 1) = 1; meal(0, 1, 0, 1) = 2; meal(5, 4, 60, 100) = 2; told(600) = 4; told(601) = 60; "
+        + "told(602) = 100; told(100) = 1"
+        + "; meal(2, 1, 0, 1) = 3; meal(2, 1, 0, 1) = 3; meal(1, 1, 0, 1) = 4; meal(4, 1, 0, 1) = 5; meal(3, 1, 0, 1) = 6; "
+            + "meal(3, 2, 0, 1) = 6");
     BOOK.words("Promise 4: UNKNOWN: the number; OUTSIDE");
     String[] numbers = {"-1", "6", "MIN", "MAX"};
     for (String m : numbers) {
       BOOK.changesNothing("meal(0, 1, 2, 3); meal(5, 4, 5, 6)", "meal(" + m + ", 1, 0, 1) = UNKNOWN");
-      BOOK.run("meal(" + m + ", 0, 0, 1) = UNKNOWN; meal(" + m + ", 1, 61, 1) = UNKNOWN; meal(" + m + ", 1, 0, 0) = UNKNOWN; meal(" + m + ", MAX, MIN, MAX) = UNKNOWN");
+      BOOK.run("meal(" + m + ", 0, 0, 1) = UNKNOWN; meal(" + m + ", 1, 61, 1) = UNKNOWN; meal(" + m + ", 1, 0, 0) = UNKNOWN; "
+          + "meal(" + m + ", MAX, MIN, MAX) = UNKNOWN");
     }
-    String[] wrong = {"0, 2, 3", "5, 2, 3", "MIN, 2, 3", "MAX, 2, 3", "1, -1, 3", "1, 61, 3", "1, MIN, 3", "1, MAX, 3", "1, 2, 0", "1, 2, 101",
-        "1, 2, -1", "1, 2, MIN", "1, 2, MAX", "5, 61, 101", "0, -1, 0"};
+    String[] wrong = {"0, 2, 3", "5, 2, 3", "MIN, 2, 3", "MAX, 2, 3", "1, -1, 3", "1, 61, 3", "1, MIN, 3", "1, MAX, 3",
+        "1, 2, 0", "1, 2, 101", "1, 2, -1", "1, 2, MIN", "1, 2, MAX", "5, 61, 101", "0, -1, 0"};
     for (String w : wrong) {
-      BOOK.changesNothing("meal(0, 4, 60, 100); meal(5, 2, 2, 2)", "meal(0, " + w + ") = OUTSIDE; meal(3, " + w + ") = OUTSIDE; meal(5, " + w + ") = OUTSIDE");
+      BOOK.changesNothing("meal(0, 4, 60, 100); meal(5, 2, 2, 2)", "meal(0, " + w + ") = OUTSIDE; meal(3, " + w
+          + ") = OUTSIDE; meal(5, " + w + ") = OUTSIDE");
     }
   }
 
@@ -373,24 +406,31 @@ public final class EdgesOfDaysTest {
     BOOK.run(all.toString());
     BOOK.words("Promise 5: OUTSIDE; FULL");
     String full = "meal(0, 1, 0, 1); pad " + "~".repeat(59) + "a";
-    BOOK.changesNothing(full, "say(33) = FULL; say(126) = FULL; say(97) = FULL");
-    BOOK.changesNothing(full, "say(32) = OUTSIDE; say(127) = OUTSIDE; say(MIN) = OUTSIDE; say(MAX) = OUTSIDE; say(-1) = OUTSIDE; say(0) = OUTSIDE");
-    BOOK.changesNothing("", "say(32) = OUTSIDE; say(127) = OUTSIDE; say(MIN) = OUTSIDE; say(MAX) = OUTSIDE; say(-1) = OUTSIDE; say(0) = OUTSIDE");
-    BOOK.changesNothing("pad ~!", "say(32) = OUTSIDE; say(127) = OUTSIDE; say(65633) = OUTSIDE; say(353) = OUTSIDE; say(-159) = OUTSIDE");
+    BOOK.changesNothing(full, "say(97) = FULL; say(126) = FULL");
+    BOOK.changesNothing(full, "say(33) = FULL");
+    BOOK.changesNothing(full, "say(32) = OUTSIDE; say(127) = OUTSIDE; say(MIN) = OUTSIDE; say(MAX) = OUTSIDE; "
+        + "say(-1) = OUTSIDE; say(0) = OUTSIDE");
+    BOOK.changesNothing("", "say(32) = OUTSIDE; say(127) = OUTSIDE; say(MIN) = OUTSIDE; say(MAX) = OUTSIDE; "
+        + "say(-1) = OUTSIDE; say(0) = OUTSIDE");
+    BOOK.changesNothing("pad ~!", "say(32) = OUTSIDE; say(127) = OUTSIDE; say(65633) = OUTSIDE; say(353) = OUTSIDE; "
+        + "say(-159) = OUTSIDE");
     BOOK.words("a sign that is said changes what fault() tells");
-    BOOK.run("fault() = NONE; say(33) = 1; fault() = 0; wipe() = 1; say(97) = 1; fault() = NONE; say(115) = 2; fault() = NONE; say(115) = 3; fault() = 2"
+    BOOK.run("fault() = NONE; say(33) = 1; fault() = 0; wipe() = 1; say(97) = 1; fault() = NONE; say(115) = 2; "
+        + "fault() = NONE; say(115) = 3; fault() = 2"
         + "; say(97) = 4; fault() = 2");
   }
 
   private static void wipe() {
     BOOK.words("Promise 6: Signs go: how many there were");
-    BOOK.run("wipe() = 0; say(97) = 1; wipe() = 1; told(0) = 0; wipe() = 0; " + "say(97); ".repeat(60) + "wipe() = 60; told(0) = 0; wipe() = 0; say(97) = 1");
+    BOOK.run("wipe() = 0; say(97) = 1; wipe() = 1; told(0) = 0; wipe() = 0; " + "say(97); ".repeat(60) + "wipe() = 60; "
+        + "told(0) = 0; wipe() = 0; say(97) = 1");
     BOOK.run("pad a!; fault() = 1; wipe() = 2; fault() = NONE; judge(0) = NONE");
   }
 
   private static void fault() {
     BOOK.words("Promise 7: THE FAULT; NONE");
-    BOOK.run("fault() = NONE; pad asohx~$.f; fault() = NONE; pad " + "asohx".repeat(12) + "; fault() = NONE; pad " + "asohx".repeat(11) + "asohh; fault() = 59");
+    BOOK.run("fault() = NONE; pad asohx~$.f; fault() = NONE; pad " + "asohx".repeat(12) + "; fault() = NONE; pad "
+        + "asohx".repeat(11) + "asohh; fault() = 59");
     // Acts that can not be are no FAULT.
     BOOK.run("pad b$...............; fault() = NONE; set(0, 0); set(4, 13); fault() = NONE");
   }

@@ -28,17 +28,20 @@ public final class EdgesOfPlansTest {
 
   private static void judged() {
     BOOK.words("JUDGED: the first ACT (from 0 on) that can not be, why");
-    BOOK.run(CAMP + "pad c; judge(0) = 0; judge(1) = 1; pad asohx.c; judge(0) = 2; judge(1) = 1; pad c$$cc; judge(0) = 0; pad a~.~c; judge(0) = 4");
+    BOOK.run(CAMP + "pad c; judge(0) = 0; judge(1) = 1; pad asohx.c; judge(0) = 2; judge(1) = 1; pad c$$cc; judge(0) = 0; "
+        + "pad a~.~c; judge(0) = 4");
     BOOK.run(CAMP + "pad " + "~".repeat(59) + "c; judge(0) = 59; judge(1) = 1; pad " + "c".repeat(60) + "; judge(0) = 0");
     BOOK.words("what was burnt");
     BOOK.run(CAMP + "pad; judge(2) = 0; pad ~.$; judge(2) = 0; pad a; judge(2) = 44; pad a.b.aso; judge(2) = 252");
-    BOOK.run("meal(0, 4, 60, 1); day(0, 4, false); set(0, 4000); set(2, 6); pad asohasohasohasoh; judge(2) = 4000; behind(0) = 0"
+    BOOK.run("meal(0, 4, 60, 1); day(0, 4, false); set(0, 4000); set(2, 6); pad asohasohasohasoh; judge(2) = 4000; "
+        + "behind(0) = 0"
         + "; pad asohasohasohasoh$asoh; judge(2) = 5000; behind(0) = 0; pad $asoh; judge(2) = 1000; behind(0) = 3000");
     BOOK.words("what was burnt; MEALS");
     BOOK.run(CAMP + "set(0, 4000); pad; judge(3) = 0; pad ~.$; judge(3) = 0; pad aaa; judge(3) = 3; pad a.b.as; judge(3) = 3"
         + "; pad " + "a".repeat(60) + "; judge(3) = 60; judge(2) = 2640; judge(0) = NONE");
     BOOK.words("Promise 8: JUDGED: the ACT (what = 0), why (1), burnt (2), MEALS (3)");
-    BOOK.run(CAMP + "pad ab; judge(0) = NONE; judge(1) = NONE; judge(2) = 142; judge(3) = 2; pad ab$c; judge(0) = 3; judge(1) = 1");
+    BOOK.run(CAMP + "pad ab; judge(0) = NONE; judge(1) = NONE; judge(2) = 142; judge(3) = 2; pad ab$c; judge(0) = 3; "
+        + "judge(1) = 1");
     BOOK.words("Promise 8: NONE");
     BOOK.run("judge(0) = NONE; judge(1) = NONE; judge(2) = 0; judge(3) = 0");
     BOOK.run("set(0, 0); set(4, 13); judge(0) = NONE; judge(1) = NONE; judge(2) = 0; judge(3) = 0");
@@ -72,16 +75,22 @@ public final class EdgesOfPlansTest {
 
   private static void behind() {
     BOOK.words("BEHIND: LEFT");
-    BOOK.run(CAMP + "behind(0) = 800; set(0, 0); behind(0) = 0; set(0, 4000); behind(0) = 4000; set(0, 44); pad a; behind(0) = 0; pad a$; behind(0) = 1000"
+    BOOK.run(CAMP + "behind(0) = 800; set(0, 0); behind(0) = 0; set(0, 4000); behind(0) = 4000; set(0, 44); pad a; "
+        + "behind(0) = 0; pad a$; behind(0) = 1000"
         + "; set(0, 4000); pad $a; behind(0) = 3956; told(1) = 4000");
+    BOOK.run(CAMP + "set(0, 2640); pad " + "a".repeat(60) + "; behind(0) = 0; set(0, 4000); behind(0) = 1360; behind(1) = 0; "
+        + "behind(2) = 0");
     BOOK.words("BEHIND: LEFT; the DAY");
-    BOOK.run(CAMP + "behind(1) = 0; pad .; behind(1) = 1; pad .............; behind(1) = 13; pad; set(4, 13); behind(1) = 13; pad a; behind(1) = 13; told(5) = 13"
+    BOOK.run(CAMP + "behind(1) = 0; pad .; behind(1) = 1; pad .............; behind(1) = 13; pad; set(4, 13); "
+        + "behind(1) = 13; pad a; behind(1) = 13; told(5) = 13"
         + "; set(4, 12); pad a.; behind(1) = 13");
     BOOK.words("whether it is COLD then");
-    BOOK.run(CAMP + "day(1, 0, true); day(13, 4, true); behind(2) = 0; pad .; behind(2) = 1; pad ..; behind(2) = 0; pad .............; behind(2) = 1; pad; set(4, 13); behind(2) = 1"
+    BOOK.run(CAMP + "day(1, 0, true); day(13, 4, true); behind(2) = 0; pad .; behind(2) = 1; pad ..; behind(2) = 0; "
+        + "pad .............; behind(2) = 1; pad; set(4, 13); behind(2) = 1"
         + "; set(4, 12); behind(2) = 0; pad ~.; behind(2) = 0; pad .; behind(2) = 1");
     BOOK.words("Promise 9: BEHIND: LEFT (what = 0), the DAY (1), COLD (2: 1, 0)");
-    BOOK.run(CAMP + "day(2, 0, true); pad a..; behind(0) = 756; behind(1) = 2; behind(2) = 1; day(2, 0, false); behind(2) = 0");
+    BOOK.run(CAMP + "day(2, 0, true); pad a..; behind(0) = 756; behind(1) = 2; behind(2) = 1; day(2, 0, false); "
+        + "behind(2) = 0");
   }
 
   private static void behindRefused() {
@@ -96,28 +105,35 @@ public final class EdgesOfPlansTest {
     BOOK.words("Promise 9: NO, STATE, as of judge(2)");
     BOOK.run(CAN_NOT_BE + "; behind(0) = STATE; behind(1) = STATE; behind(2) = STATE");
     BOOK.words("behind: They change nothing");
-    BOOK.changesNothing(CAN_BE, "behind(-1) = OUTSIDE; behind(3) = OUTSIDE; behind(MIN) = OUTSIDE; behind(MAX) = OUTSIDE; behind(0); behind(1); behind(2)");
+    BOOK.changesNothing(CAN_BE, "behind(-1) = OUTSIDE; behind(3) = OUTSIDE; behind(MIN) = OUTSIDE; behind(MAX) = OUTSIDE; "
+        + "behind(0); behind(1); behind(2)");
     BOOK.changesNothing(FAULTY, "behind(0) = NO; behind(1) = NO; behind(2) = NO; behind(3) = OUTSIDE");
     BOOK.changesNothing(CAN_NOT_BE, "behind(0) = STATE; behind(1) = STATE; behind(2) = STATE; behind(3) = OUTSIDE");
   }
 
   private static void cost() {
     BOOK.words("COST, of an ACT of it: what it burns (0: no MEAL)");
-    BOOK.run(CAMP + "pad a.~$bsohx; cost(0, 0) = 44; cost(1, 0) = 0; cost(2, 0) = 0; cost(3, 0) = 0; cost(4, 0) = 264; cost(1, 1) = 0; cost(2, 1) = 0; cost(3, 1) = 0");
+    BOOK.run(CAMP + "pad a.~$bsohx; cost(0, 0) = 44; cost(1, 0) = 0; cost(2, 0) = 0; cost(3, 0) = 0; cost(4, 0) = 264; "
+        + "cost(1, 1) = 0; cost(2, 1) = 0; cost(3, 1) = 0");
     BOOK.run("meal(5, 4, 60, 1); day(13, 4, false); set(4, 13); set(0, 4000); pad fsoh; cost(0, 0) = 1000; cost(0, 1) = 352");
-    BOOK.run(CAMP + "day(1, 3, false); pad ~.~$; cost(2, 0) = 0; cost(2, 1) = 0; cost(3, 0) = 0; cost(3, 1) = 0; cost(1, 1) = 0");
+    BOOK.run(CAMP + "day(1, 3, false); pad ~.~$; cost(2, 0) = 0; cost(2, 1) = 0; cost(3, 0) = 0; cost(3, 1) = 0; "
+        + "cost(1, 1) = 0");
     BOOK.words("what of it is by the WIND");
-    BOOK.run("meal(0, 2, 9, 1); pad a; cost(0, 1) = 0; day(0, 1, false); cost(0, 1) = 22; day(0, 4, false); cost(0, 1) = 88; pad aohx; cost(0, 1) = 88; pad as; cost(0, 1) = 176"
-        + "; set(3, 1); cost(0, 1) = 88; day(0, 2, false); cost(0, 1) = 0; day(0, 1, false); cost(0, 1) = 0; day(0, 0, false); cost(0, 1) = 0; cost(0, 0) = 185");
+    BOOK.run("meal(0, 2, 9, 1); pad a; cost(0, 1) = 0; day(0, 1, false); cost(0, 1) = 22; day(0, 4, false); cost(0, 1) = 88; "
+        + "pad aohx; cost(0, 1) = 88; pad as; cost(0, 1) = 176"
+        + "; set(3, 1); cost(0, 1) = 88; day(0, 2, false); cost(0, 1) = 0; day(0, 1, false); cost(0, 1) = 0; "
+            + "day(0, 0, false); cost(0, 1) = 0; cost(0, 0) = 185");
     BOOK.words("Promise 10: COST of an ACT: all (what = 0), by the WIND (1)");
-    BOOK.run("meal(0, 1, 6, 1); day(1, 2, false); pad a.a; cost(0, 0) = 50; cost(0, 1) = 0; cost(2, 0) = 72; cost(2, 1) = 22");
+    BOOK.run("meal(0, 1, 6, 1); day(1, 2, false); pad a.a; cost(0, 0) = 50; cost(0, 1) = 0; cost(2, 0) = 72; "
+        + "cost(2, 1) = 22");
   }
 
   private static void costRefused() {
     BOOK.words("Promise 10: OUTSIDE");
     BOOK.bounds(CAN_BE, "cost(0, ?)", 0, 1, "OUTSIDE");
     for (String state : new String[] {"", CAN_BE, FAULTY, CAN_NOT_BE, BOTH}) {
-      BOOK.run(state + "; cost(0, 2) = OUTSIDE; cost(0, -1) = OUTSIDE; cost(99, 2) = OUTSIDE; cost(-1, -1) = OUTSIDE; cost(MIN, MIN) = OUTSIDE; cost(MAX, MAX) = OUTSIDE");
+      BOOK.run(state + "; cost(0, 2) = OUTSIDE; cost(0, -1) = OUTSIDE; cost(99, 2) = OUTSIDE; cost(-1, -1) = OUTSIDE; "
+          + "cost(MIN, MIN) = OUTSIDE; cost(MAX, MAX) = OUTSIDE");
     }
     BOOK.words("Promise 10: NO, STATE, likewise");
     BOOK.run(FAULTY + "; cost(0, 0) = NO; cost(0, 1) = NO");
@@ -135,7 +151,8 @@ public final class EdgesOfPlansTest {
     // ACTS of a PLAN that was wiped, or DONE, are none of this one.
     BOOK.run(CAMP + "pad aaa; cost(2, 0) = 44; pad a; cost(1, 0) = UNKNOWN; done() = 1; cost(0, 0) = UNKNOWN");
     BOOK.words("cost: They change nothing");
-    BOOK.changesNothing(CAN_BE, "cost(0, 2) = OUTSIDE; cost(0, -1) = OUTSIDE; cost(-1, 0) = UNKNOWN; cost(5, 1) = UNKNOWN; cost(MIN, 0) = UNKNOWN; cost(MAX, 1) = UNKNOWN");
+    BOOK.changesNothing(CAN_BE, "cost(0, 2) = OUTSIDE; cost(0, -1) = OUTSIDE; cost(-1, 0) = UNKNOWN; cost(5, 1) = UNKNOWN; "
+        + "cost(MIN, 0) = UNKNOWN; cost(MAX, 1) = UNKNOWN");
     BOOK.changesNothing(FAULTY, "cost(0, 2) = OUTSIDE; cost(0, 0) = NO; cost(MAX, 1) = NO");
     BOOK.changesNothing(CAN_NOT_BE, "cost(0, 2) = OUTSIDE; cost(0, 0) = STATE; cost(MAX, 1) = STATE");
   }
@@ -143,7 +160,8 @@ public final class EdgesOfPlansTest {
   private static void spent() {
     BOOK.words("SPENT: on a DAY");
     BOOK.run(CAMP + "pad a.ab..b; spent(0) = 44; spent(1) = 142; spent(2) = 0; spent(3) = 98; spent(4) = 0; spent(13) = 0");
-    BOOK.run(CAMP + "pad; spent(0) = 0; spent(13) = 0; set(4, 13); pad ab; spent(13) = 142; spent(12) = 0; spent(0) = 0; set(4, 12); pad a.b; spent(12) = 44; spent(13) = 98");
+    BOOK.run(CAMP + "pad; spent(0) = 0; spent(13) = 0; set(4, 13); pad ab; spent(13) = 142; spent(12) = 0; spent(0) = 0; "
+        + "set(4, 12); pad a.b; spent(12) = 44; spent(13) = 98");
     BOOK.run(CAMP + "set(4, 5); pad a~$.; spent(5) = 44; spent(4) = 0; spent(6) = 0; spent(0) = 0");
     BOOK.run(CAMP + "set(0, 4000); pad " + "a".repeat(60) + "; spent(0) = 2640; spent(1) = 0");
     // What was spent by another PLAN is none of this one.
@@ -163,7 +181,8 @@ public final class EdgesOfPlansTest {
     BOOK.run(BOTH + "; spent(0) = NO; spent(13) = NO");
     BOOK.run(CAN_NOT_BE + "; spent(0) = STATE; spent(13) = STATE");
     BOOK.words("spent: They change nothing");
-    BOOK.changesNothing(CAN_BE, "spent(-1) = UNKNOWN; spent(14) = UNKNOWN; spent(MIN) = UNKNOWN; spent(MAX) = UNKNOWN; spent(0)");
+    BOOK.changesNothing(CAN_BE, "spent(-1) = UNKNOWN; spent(14) = UNKNOWN; spent(MIN) = UNKNOWN; spent(MAX) = UNKNOWN; "
+        + "spent(0)");
     BOOK.changesNothing(FAULTY, "spent(0) = NO; spent(14) = UNKNOWN");
     BOOK.changesNothing(CAN_NOT_BE, "spent(0) = STATE; spent(14) = UNKNOWN");
   }
@@ -181,8 +200,10 @@ public final class EdgesOfPlansTest {
     BOOK.run("done() = 0; told(1) = 800; told(5) = 0");
     BOOK.run(CAMP + "pad asohx; done() = 1; pad ~~~; done() = 3; pad asohxbx.$~; done() = 5; done() = 0");
     // All but LEFT, the DAY and the PAD is as it was.
-    BOOK.run("meal(3, 2, 10, 50); set(1, 9); set(2, 6); set(3, 1); day(0, 3, true); day(1, 4, true); day(13, 1, true); seen(3, 4); seen(0, 20); pad d~.; done() = 3; told(2) = 9"
-        + "; told(3) = 6; told(4) = 1; told(6) = 8; told(7) = 2; told(20) = 13; told(21) = 14; told(33) = 11; told(400) = 2; told(401) = 10; told(402) = 50; told(8) = 97; told(1) = 680; told(5) = 1");
+    BOOK.run("meal(3, 2, 10, 50); set(1, 9); set(2, 6); set(3, 1); day(0, 3, true); day(1, 4, true); day(13, 1, true); "
+        + "seen(3, 4); seen(0, 20); pad d~.; done() = 3; told(2) = 9"
+        + "; told(3) = 6; told(4) = 1; told(6) = 8; told(7) = 2; told(20) = 13; told(21) = 14; told(33) = 11; told(400) = 2; "
+            + "told(401) = 10; told(402) = 50; told(8) = 97; told(1) = 680; told(5) = 1");
   }
 
   private static void doneRefused() {
@@ -203,13 +224,17 @@ public final class EdgesOfPlansTest {
   private static void bagThatIsDone() {
     String cold = "meal(0, 1, 0, 1); day(0, 0, true); day(1, 0, true); day(2, 0, true); day(3, 0, true); day(13, 0, true); ";
     BOOK.words("whether it is COLD then (a night in the bag warms that one alone)");
-    BOOK.run(cold + "pad ~.; done() = 2; behind(2) = 0; told(21) = 10; pad ah; judge(0) = NONE; pad .; behind(2) = 1; pad ah.ah; judge(0) = 2");
-    BOOK.run(cold + "pad ~; done() = 1; behind(2) = 1; pad ah; judge(1) = 3; pad .; behind(2) = 0; pad .ah; judge(0) = NONE; pad ..; behind(2) = 1");
+    BOOK.run(cold + "pad ~.; done() = 2; behind(2) = 0; told(21) = 10; pad ah; judge(0) = NONE; pad .; behind(2) = 1; "
+        + "pad ah.ah; judge(0) = 2");
+    BOOK.run(cold + "pad ~; done() = 1; behind(2) = 1; pad ah; judge(1) = 3; pad .; behind(2) = 0; pad .ah; judge(0) = NONE; "
+        + "pad ..; behind(2) = 1");
     BOOK.run(cold + "pad ~~; done() = 2; pad ~.; done() = 2; behind(2) = 0; pad .; behind(2) = 1");
-    BOOK.run(cold + "set(4, 12); pad ~.; done() = 2; told(5) = 13; behind(2) = 0; pad ah; judge(0) = NONE; pad ~; done() = 1; behind(2) = 0; pad .; judge(1) = 6");
+    BOOK.run(cold + "set(4, 12); pad ~.; done() = 2; told(5) = 13; behind(2) = 0; pad ah; judge(0) = NONE; pad ~; "
+        + "done() = 1; behind(2) = 0; pad .; judge(1) = 6");
     // Another DAY is not the one that is warmed, and another night is not the one in the bag.
     BOOK.run(cold + "pad ~.; done() = 2; set(4, 3); behind(2) = 1; pad ah; judge(1) = 3");
-    BOOK.run(cold + "pad .~.; done() = 3; set(4, 0); behind(2) = 1; pad ah; judge(1) = 3; pad .; behind(2) = 1; set(4, 3); pad; behind(2) = 1");
+    BOOK.run(cold + "pad .~.; done() = 3; set(4, 0); behind(2) = 1; pad ah; judge(1) = 3; pad .; behind(2) = 1; set(4, 3); "
+        + "pad; behind(2) = 1");
     BOOK.run(cold + "pad ~.; done() = 2; set(4, 0); pad .; behind(2) = 1; done() = 1; behind(2) = 1");
     BOOK.run(cold + "pad ~; done() = 1; set(4, 2); pad .; behind(2) = 1; pad .ah; judge(1) = 3");
   }
@@ -228,21 +253,26 @@ public final class EdgesOfPlansTest {
     }
     BOOK.run(steps.toString());
     BOOK.words("whether it can be or not");
-    BOOK.run("meal(0, 1, 0, 100); set(1, 60); plain(0, 0, 0) = 44; set(0, 0); plain(0, 0, 0) = 44; day(0, 0, true); plain(0, 0, 4) = 55; set(4, 13); plain(0, 0, 0) = 44");
+    BOOK.run("meal(0, 1, 0, 100); set(1, 60); plain(0, 0, 0) = 44; set(0, 0); plain(0, 0, 0) = 44; day(0, 0, true); "
+        + "plain(0, 0, 4) = 55; set(4, 13); plain(0, 0, 0) = 44");
   }
 
   private static void plainRefused() {
     BOOK.words("Promise 13: UNKNOWN: both");
-    String meals = "meal(0, 1, 0, 1); meal(1, 1, 0, 1); meal(2, 1, 0, 1); meal(3, 1, 0, 1); meal(4, 1, 0, 1); meal(5, 1, 0, 1)";
+    String meals = "meal(0, 1, 0, 1); meal(1, 1, 0, 1); meal(2, 1, 0, 1); meal(3, 1, 0, 1); meal(4, 1, 0, 1); "
+        + "meal(5, 1, 0, 1)";
     BOOK.bounds(meals, "plain(?, 0, 0)", 0, 5, "UNKNOWN");
     BOOK.bounds(meals, "plain(0, ?, 0)", 0, 13, "UNKNOWN");
-    BOOK.run("plain(0, 0, 0) = UNKNOWN; plain(5, 0, 0) = UNKNOWN; meal(3, 1, 0, 1); plain(3, 0, 0) = 44; plain(2, 0, 0) = UNKNOWN; plain(4, 0, 0) = UNKNOWN");
+    BOOK.run("plain(0, 0, 0) = UNKNOWN; plain(5, 0, 0) = UNKNOWN; meal(3, 1, 0, 1); plain(3, 0, 0) = 44; "
+        + "plain(2, 0, 0) = UNKNOWN; plain(4, 0, 0) = UNKNOWN");
     BOOK.words("Promise 13: OUTSIDE: 0 to 15");
     BOOK.bounds(meals, "plain(0, 0, ?)", 0, 15, "OUTSIDE");
-    BOOK.run(meals + "; plain(6, 0, 16) = UNKNOWN; plain(0, 14, 16) = UNKNOWN; plain(-1, -1, -1) = UNKNOWN; plain(0, MIN, MAX) = UNKNOWN; plain(MAX, 0, MIN) = UNKNOWN");
+    BOOK.run(meals + "; plain(6, 0, 16) = UNKNOWN; plain(0, 14, 16) = UNKNOWN; plain(-1, -1, -1) = UNKNOWN; "
+        + "plain(0, MIN, MAX) = UNKNOWN; plain(MAX, 0, MIN) = UNKNOWN");
     BOOK.run("plain(0, 0, 16) = UNKNOWN; plain(0, 0, -1) = UNKNOWN");
     BOOK.words("plain: They change nothing");
-    BOOK.changesNothing(CAN_BE, "plain(2, 0, 0) = UNKNOWN; plain(6, 0, 0) = UNKNOWN; plain(MIN, 0, 0) = UNKNOWN; plain(0, 14, 0) = UNKNOWN; plain(0, MAX, 0) = UNKNOWN"
+    BOOK.changesNothing(CAN_BE, "plain(2, 0, 0) = UNKNOWN; plain(6, 0, 0) = UNKNOWN; plain(MIN, 0, 0) = UNKNOWN; "
+        + "plain(0, 14, 0) = UNKNOWN; plain(0, MAX, 0) = UNKNOWN"
         + "; plain(0, 0, 16) = OUTSIDE; plain(0, 0, -1) = OUTSIDE; plain(0, 0, 15)");
   }
 }

@@ -174,18 +174,30 @@ public final class ModelTest {
     }
 
     boolean isCold(Trip t) {
-      return c.cold[t.day] && !isWarmed(t);
+      return c.cold[t.day] && !isWarmed(t.nights, t.day);
     }
 
     /** The night that came last ended the DAY ahead of this one, and of it, since the night before it, ~ was said. */
-    private static boolean isWarmed(Trip t) {
-      int last = t.nights.lastIndexOf('.');
+    private static boolean isWarmed(String nights, int day) {
+      int last = nights.lastIndexOf('.');
       if (last < 0) {
         return false;
       }
-      String ahead = (t.day - 1) + ";";
-      String said = t.nights.substring(t.nights.lastIndexOf('.', last - 1) + 1, last);
-      return t.nights.startsWith(ahead, last + 1) && said.contains("~" + ahead);
+      String ahead = (day - 1) + ";";
+      String said = nights.substring(nights.lastIndexOf('.', last - 1) + 1, last);
+      return nights.startsWith(ahead, last + 1) && said.contains("~" + ahead);
+    }
+
+    /**
+     * Neither the document nor an issue says whether the bag holds when, with no night between, its own DAY is set
+     * (again), nor whether a warmed DAY is COLD when it is told so: such calls are left out.
+     */
+    boolean isLeftOpen(String name, int[] a) {
+      if (name.equals("set") && a[0] == 4) {
+        boolean inBag = c.nights.substring(c.nights.lastIndexOf('.') + 1).contains("~" + a[1] + ";");
+        return inBag || isWarmed(c.nights, a[1]);
+      }
+      return name.equals("day") && a[2] % 2 != 0 && isWarmed(c.nights, a[0]);
     }
 
     Trip asTold() {
@@ -776,6 +788,9 @@ public final class ModelTest {
 
     long both(String name, int... a) {
       int[] args = Arrays.copyOf(a, 4);
+      if (model.isLeftOpen(name, args)) {
+        return NONE;
+      }
       long want = model.call(name, args);
       long got = ask(x, name, args);
       log.add(name + Arrays.toString(a) + " = " + got);

@@ -312,11 +312,10 @@ public final class PromiseTest {
     due("2: a high flame on a COLD DAY", x.judge(1), 3);
     due("2: COLD then", pad(x, ".").behind(2), 1);
     due("2: gas without end, and COLD", pad(x, ".ah").gust(5, 1, 0), OneCan.GONE + STATE);
-    due("2: it is DAY 7", x.set(4, 0), 7);
-    due("2: the DAY of the ~ again, no night has come", x.judge(0), NONE);
-    due("2: it is DAY 0", x.set(4, 0), 0);
-    due("2: set to the DAY that it is", x.judge(0), NONE);
-    due("2: COLD ahead of the night", pad(x, "ah").judge(1), 3);
+    due("2: it is DAY 7", x.set(4, 8), 7);
+
+    x = coldDays();
+    due("2: COLD ahead of the night", doneThen(x, "~", "ah").judge(1), 3);
     x.set(4, 14);
     due("2: refused, nothing changes", pad(x, ".ah").judge(0), NONE);
 
@@ -351,39 +350,30 @@ public final class PromiseTest {
     x.set(4, 0);
     due("2: nor the DAY ahead of it", pad(x, "").behind(2), 1);
     due("2: another night, the same number", pad(x, ".ah").judge(0), 1);
-    x.set(4, 1);
-    due("2: the DAY that is warmed again, no night has come", pad(x, "ah").judge(0), NONE);
-    due("2: set to the DAY that it is", x.set(4, 1), 1);
-    due("2: warmed yet", x.judge(0), NONE);
-    due("2: another night has come", doneThen(x, "ah.", "").behind(2), 1);
+
+    x = coldDays();
+    due("2: another night has come", doneThen(doneThen(x, "~.", ""), "ah.", "").behind(2), 1);
     x.set(4, 1);
     due("2: that number again", x.behind(2), 1);
 
     x = coldDays();
     doneThen(x, "~.", "").set(4, 5);
     due("2: ~ on another DAY", doneThen(x, "~", ".ah").judge(0), NONE);
-    x.set(4, 1);
-    due("2: warmed yet, no night has come", pad(x, "ah").judge(0), NONE);
-    due("2: ~ on each DAY", doneThen(x, "~", ".ah").judge(0), NONE);
-    x.set(4, 5);
-    due("2: ~ on each DAY", x.judge(0), NONE);
-    due("2: one night comes next", doneThen(x, ".", "ah").judge(0), NONE);
+    due("2: that night comes", doneThen(x, ".", "ah").judge(0), NONE);
     x.set(4, 1);
     due("2: and not the other", pad(x, ".ah").judge(0), 1);
   }
 
   private static void bagAndDay() {
     OneCan x = coldDays();
-    doneThen(x, "~.~", "");
-    x.day(1, 0, true);
-    x.day(2, 0, true);
-    due("3: COLD as told, and warmed", pad(x, "ah.ah").judge(0), NONE);
-    x.day(1, 0, false);
-    due("3: as told last", x.told(21), 0);
-    due("3: not COLD", pad(x, "").behind(2), 0);
-    x.day(1, 2, true);
-    due("3: as told last", x.told(21), 12);
-    due("3: warmed yet", x.behind(2), 0);
+    doneThen(x, "~", "");
+    x.day(1, 3, true);
+    due("3: COLD as told, and warmed by the night that comes then", pad(x, ".ah").judge(0), NONE);
+    due("3: as told last", x.told(21), 13);
+    x.day(1, 2, false);
+    due("3: as told last", x.told(21), 2);
+    due("3: not COLD", pad(x, ".").behind(2), 0);
+    due("3: the DAY behind it is, as told", pad(x, "..").behind(2), 1);
   }
 
   private static void bagThatIsNotDone() {
