@@ -30,6 +30,7 @@ final class Book {
 
   Book(String name) {
     this.name = name;
+    Watch.start();
   }
 
   private static Map<String, Method> calls() {

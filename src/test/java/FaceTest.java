@@ -30,6 +30,7 @@ public final class FaceTest {
   }
 
   public static void main(String[] args) throws ReflectiveOperationException, IOException {
+    Watch.start();
     checkMembers();
     checkInside();
     checkText(Files.readString(Path.of("src/main/java/OneCan.java")));

@@ -1020,6 +1020,7 @@ public final class ModelTest {
   }
 
   public static void main(String[] args) {
+    Watch.start();
     int runs = args.length > 0 ? Integer.parseInt(args[0]) : 150;
     long from = args.length > 1 ? Long.parseLong(args[1]) : 1;
     int wrong = 0;

@@ -22,6 +22,7 @@ public final class PromiseTest {
   }
 
   public static void main(String[] args) {
+    Watch.start();
     promise1();
     promises2to4();
     promises5to7();
