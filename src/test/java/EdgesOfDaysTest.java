@@ -271,7 +271,7 @@ public final class EdgesOfDaysTest {
     BOOK.run("meal(0, 1, 0, 100); day(0, 0, true); set(0, 0); set(1, 60); pad ah; judge(1) = 2; day(0, 0, false); "
         + "judge(1) = 2"
         + "; set(0, 4000); day(0, 0, true); judge(1) = 2; set(1, 0); judge(1) = 3; set(0, 0); judge(1) = 3; "
-            + "day(0, 0, false); judge(1) = 4"
+        + "day(0, 0, false); judge(1) = 4"
         + "; set(0, 4000); judge(1) = NONE");
     BOOK.words("the first act that can not be, and why");
     BOOK.run("meal(0, 1, 0, 1); set(0, 43); pad $ab; judge(0) = 0; judge(1) = 5; set(2, 6); judge(0) = 2; judge(1) = 1; "
@@ -283,19 +283,19 @@ public final class EdgesOfDaysTest {
     BOOK.run("meal(0, 1, 0, 1); day(0, 0, true); day(1, 0, true); day(2, 0, true); pad ~; behind(2) = 1; pad ~ah; "
         + "judge(0) = 1; judge(1) = 3"
         + "; pad ~.ah; judge(0) = NONE; behind(2) = 0; pad a~.ah; judge(0) = NONE; pad ~a.ah; judge(0) = NONE; pad .ah; "
-            + "judge(1) = 3");
+        + "judge(1) = 3");
     BOOK.run("meal(0, 1, 0, 1); day(13, 0, true); set(4, 12); pad .ah; judge(1) = 3; pad ~.ah; judge(0) = NONE; "
         + "behind(2) = 0");
     BOOK.words("a night in the bag warms that one alone");
     BOOK.run("meal(0, 1, 0, 1); day(0, 0, true); day(1, 0, true); day(2, 0, true); day(3, 0, true); pad ~..; behind(2) = 1"
         + "; pad ~.ah.ah; judge(0) = 4; judge(1) = 3; pad ~.~.ah; judge(0) = NONE; pad .~.ah; judge(0) = NONE; pad ~..~.ah; "
-            + "judge(0) = NONE"
+        + "judge(0) = NONE"
         + "; pad ~.ah.~.ah; judge(0) = NONE");
     BOOK.words("A second ~ on a DAY is nothing more");
     BOOK.run("meal(0, 1, 0, 1); day(1, 0, true); day(2, 0, true); pad ~~.; behind(2) = 0; judge(0) = NONE; pad ~~..; "
         + "behind(2) = 1"
         + "; pad ~~~.ah.; behind(2) = 1; pad ~a~.; behind(2) = 0; pad ~a~..; behind(2) = 1; pad ~~.; done() = 3; "
-            + "behind(2) = 0");
+        + "behind(2) = 0");
   }
 
   private static void newObject() {
@@ -326,7 +326,7 @@ public final class EdgesOfDaysTest {
     BOOK.run("set(0, 11) = 800; set(1, 12) = 0; set(2, 3) = 0; set(3, 1) = 0; set(4, 13) = 0; told(1) = 11; told(2) = 12; "
         + "told(3) = 3"
         + "; told(4) = 1; told(5) = 13; set(0, 0) = 11; set(1, 0) = 12; set(2, 0) = 3; set(3, 0) = 1; set(4, 0) = 13; "
-            + "told(1) = 0"
+        + "told(1) = 0"
         + "; told(2) = 0; told(3) = 0; told(4) = 0; told(5) = 0");
     BOOK.run("set(0, 7) = 800; set(0, 7) = 7; set(4, 7) = 0; set(4, 7) = 7; set(3, 1) = 0; set(3, 1) = 1");
     BOOK.words("Promise 2: 3 SHIELD (1, 0)");
@@ -381,7 +381,7 @@ public final class EdgesOfDaysTest {
     BOOK.run("meal(5, 1, 0, 1) = 1; meal(0, 1, 0, 1) = 2; meal(5, 4, 60, 100) = 2; told(600) = 4; told(601) = 60; "
         + "told(602) = 100; told(100) = 1"
         + "; meal(2, 1, 0, 1) = 3; meal(2, 1, 0, 1) = 3; meal(1, 1, 0, 1) = 4; meal(4, 1, 0, 1) = 5; meal(3, 1, 0, 1) = 6; "
-            + "meal(3, 2, 0, 1) = 6");
+        + "meal(3, 2, 0, 1) = 6");
     BOOK.words("Promise 4: UNKNOWN: the number; OUTSIDE");
     String[] numbers = {"-1", "6", "MIN", "MAX"};
     for (String m : numbers) {

@@ -131,7 +131,7 @@ public final class EdgesOfLeaksTest {
         + "leaks(-1) = 80; leaks(0) = 1001; leaks(79) = 1080; where() = 2; forget(); seen(2, 3); leaks(-1) = 40; "
         + "leaks(20) = 1001; where() = 3"
         + "; forget(); seen(2, 4); leaks(-1) = 0; forget(); seen(0, 4); leaks(-1) = 160; forget(); seen(0, 3); "
-            + "leaks(-1) = 0");
+        + "leaks(-1) = 0");
     // A full can is full again behind the shop, though something went ahead of it.
     BOOK.run("meal(0, 4, 25, 1); set(2, 6); set(0, 4000); pad ~$a; behind(0) = 3799; seen(3, 19); leaks(-1) = 0; forget(); "
         + "seen(3, 18); leaks(0) = 1");

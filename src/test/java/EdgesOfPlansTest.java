@@ -122,7 +122,7 @@ public final class EdgesOfPlansTest {
     BOOK.run("meal(0, 2, 9, 1); pad a; cost(0, 1) = 0; day(0, 1, false); cost(0, 1) = 22; day(0, 4, false); cost(0, 1) = 88; "
         + "pad aohx; cost(0, 1) = 88; pad as; cost(0, 1) = 176"
         + "; set(3, 1); cost(0, 1) = 88; day(0, 2, false); cost(0, 1) = 0; day(0, 1, false); cost(0, 1) = 0; "
-            + "day(0, 0, false); cost(0, 1) = 0; cost(0, 0) = 185");
+        + "day(0, 0, false); cost(0, 1) = 0; cost(0, 0) = 185");
     BOOK.words("Promise 10: COST of an ACT: all (what = 0), by the WIND (1)");
     BOOK.run("meal(0, 1, 6, 1); day(1, 2, false); pad a.a; cost(0, 0) = 50; cost(0, 1) = 0; cost(2, 0) = 72; "
         + "cost(2, 1) = 22");
@@ -201,9 +201,9 @@ public final class EdgesOfPlansTest {
     BOOK.run(CAMP + "pad asohx; done() = 1; pad ~~~; done() = 3; pad asohxbx.$~; done() = 5; done() = 0");
     // All but LEFT, the DAY and the PAD is as it was.
     BOOK.run("meal(3, 2, 10, 50); set(1, 9); set(2, 6); set(3, 1); day(0, 3, true); day(1, 4, true); day(13, 1, true); "
-        + "seen(3, 4); seen(0, 20); pad d~.; done() = 3; told(2) = 9"
+        + "seen(3, 4); seen(0, 20); pad d.~; done() = 3; told(2) = 9"
         + "; told(3) = 6; told(4) = 1; told(6) = 8; told(7) = 2; told(20) = 13; told(21) = 14; told(33) = 11; told(400) = 2; "
-            + "told(401) = 10; told(402) = 50; told(8) = 97; told(1) = 680; told(5) = 1");
+        + "told(401) = 10; told(402) = 50; told(8) = 97; told(1) = 680; told(5) = 1");
   }
 
   private static void doneRefused() {
@@ -224,7 +224,7 @@ public final class EdgesOfPlansTest {
   private static void bagThatIsDone() {
     String cold = "meal(0, 1, 0, 1); day(0, 0, true); day(1, 0, true); day(2, 0, true); day(3, 0, true); day(13, 0, true); ";
     BOOK.words("whether it is COLD then (a night in the bag warms that one alone)");
-    BOOK.run(cold + "pad ~.; done() = 2; behind(2) = 0; told(21) = 10; pad ah; judge(0) = NONE; pad .; behind(2) = 1; "
+    BOOK.run(cold + "pad ~.; done() = 2; behind(2) = 0; pad ah; judge(0) = NONE; pad .; behind(2) = 1; "
         + "pad ah.ah; judge(0) = 2");
     BOOK.run(cold + "pad ~; done() = 1; behind(2) = 1; pad ah; judge(1) = 3; pad .; behind(2) = 0; pad .ah; judge(0) = NONE; "
         + "pad ..; behind(2) = 1");

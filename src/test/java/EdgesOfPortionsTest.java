@@ -103,7 +103,7 @@ public final class EdgesOfPortionsTest {
     BOOK.run(windy + "set(0, 44); most(100000, 0, 0) = 0; most(100000, 4, 0) = 0; most(100000, 5, 0) = 1; "
         + "most(100000, 6, 0) = 1; most(100000, 13, 0) = 1"
         + "; set(4, 5); most(100000, 5, 0) = 1; most(100000, 13, 0) = 1; set(4, 6); most(100000, 6, 0) = 0; "
-            + "most(100000, 13, 0) = 0; set(0, 88); most(100000, 13, 0) = 1");
+        + "most(100000, 13, 0) = 0; set(0, 88); most(100000, 13, 0) = 1");
     BOOK.run(windy + "day(0, 0, false); day(5, 4, false); set(0, 44); most(100000, 0, 0) = 1; set(4, 1); "
         + "most(100000, 13, 0) = 0; day(13, 0, false); most(100000, 12, 0) = 0"
         + "; most(100000, 13, 0) = 1; set(4, 13); most(100000, 13, 0) = 1; most(100000, 13, 1) = 1");
@@ -125,7 +125,7 @@ public final class EdgesOfPortionsTest {
     BOOK.run(ONE + "set(0, 0); most(900000, 0, 0) = 0; most(900000, 0, 1) = 0; set(0, 43); most(900000, 0, 0) = 0; "
         + "set(0, 44); most(900000, 0, 0) = 1; set(0, 87); most(900000, 0, 0) = 1"
         + "; set(0, 88); most(900000, 0, 0) = 2; set(0, 395); most(900000, 0, 0) = 8; set(0, 396); most(900000, 0, 0) = 9; "
-            + "set(0, 4000); most(900000, 0, 0) = 9");
+        + "set(0, 4000); most(900000, 0, 0) = 9");
     BOOK.words("(those that do not boil hot enough can not be)");
     BOOK.run("meal(0, 1, 0, 80); meal(1, 1, 0, 81); set(1, 59); most(340000, 0, 0) = 7; set(1, 60); most(340000, 0, 0) = 3; "
         + "most(340000, 0, 1) = 3; most(40000, 0, 0) = 0; most(40000, 0, 1) = 0");
@@ -141,7 +141,7 @@ public final class EdgesOfPortionsTest {
     BOOK.run("meal(0, 1, 0, 1); meal(5, 4, 60, 1); set(0, 236); most(900009, 0, 0) = FULL; most(900003, 0, 0) = 5; "
         + "most(900003, 0, 1) = 64; set(0, 235); most(900003, 0, 0) = 5; most(900003, 0, 1) = 5"
         + "; set(0, 280); most(900003, 0, 0) = 6; most(900003, 0, 1) = 65; most(0, 0, 0) = 0; most(0, 0, 1) = 0; "
-            + "set(0, 4000); most(900003, 0, 0) = 12; most(900003, 0, 1) = 201");
+        + "set(0, 4000); most(900003, 0, 0) = 12; most(900003, 0, 1) = 201");
     BOOK.run("most(0, 0, 0) = 0; most(0, 13, 1) = 0; set(0, 0); set(4, 13); most(0, 13, 0) = 0");
     BOOK.run("meal(0, 4, 60, 1); meal(1, 4, 60, 1); set(0, 4000); most(930000, 0, 1) = 768; most(930000, 0, 0) = 12");
   }
@@ -209,7 +209,7 @@ public final class EdgesOfPortionsTest {
     BOOK.run("meal(0, 1, 0, 1); meal(1, 4, 60, 1); day(0, 4, false); day(1, 1, false); least(200000, 0) = 176; "
         + "least(200000, 1) = 110; least(300000, 1) = 198; least(200000, 2) = 88"
         + "; least(210000, 1) = 423; least(220000, 1) = 736; least(320000, 2) = 670; set(4, 2); least(200000, 2) = 88; "
-            + "set(4, 1); least(300000, 2) = 143; least(200000, 1) = 110");
+        + "set(4, 1); least(300000, 2) = 143; least(200000, 1) = 110");
     BOOK.words("NONE (too few DAYS, or one that does not boil hot enough)");
     BOOK.run("meal(0, 1, 0, 80); meal(1, 1, 0, 81); set(1, 59); least(110000, 0) = 88; set(1, 60); least(110000, 0) = NONE; "
         + "least(100000, 0) = 44; least(10000, 13) = NONE; least(200000, 0) = 88; least(300000, 0) = NONE");

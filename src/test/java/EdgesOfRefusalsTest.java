@@ -101,13 +101,13 @@ public final class EdgesOfRefusalsTest {
     String anywhere = "set(5, 0) = OUTSIDE; set(-1, 0) = OUTSIDE; set(0, 4001) = OUTSIDE; set(1, 61) = OUTSIDE; "
         + "set(2, 7) = OUTSIDE; set(3, 2) = OUTSIDE; set(4, 14) = OUTSIDE; set(0, -1) = OUTSIDE; set(4, -1) = OUTSIDE"
         + "; day(14, 0, true) = UNKNOWN; day(0, 5, true) = OUTSIDE; day(5, -1, false) = OUTSIDE; meal(6, 1, 1, 1) = UNKNOWN; "
-            + "meal(0, 5, 1, 1) = OUTSIDE; meal(2, 1, 61, 1) = OUTSIDE; meal(1, 1, 1, 0) = OUTSIDE"
+        + "meal(0, 5, 1, 1) = OUTSIDE; meal(2, 1, 61, 1) = OUTSIDE; meal(1, 1, 1, 0) = OUTSIDE"
         + "; say(32) = OUTSIDE; say(127) = OUTSIDE; judge(4) = OUTSIDE; behind(3) = OUTSIDE; cost(0, 2) = OUTSIDE; "
-            + "spent(14) = UNKNOWN; plain(2, 0, 0) = UNKNOWN; plain(0, 0, 16) = OUTSIDE"
+        + "spent(14) = UNKNOWN; plain(2, 0, 0) = UNKNOWN; plain(0, 0, 16) = OUTSIDE"
         + "; shared(-1, 0) = OUTSIDE; shared(1, 0) = UNKNOWN; most(0, 5, 2) = OUTSIDE; most(0, 4, 0) = UNKNOWN; "
-            + "most(990000, 5, 0) = FULL; least(-1, 5) = OUTSIDE; least(0, 4) = UNKNOWN; least(990000, 5) = FULL"
+        + "most(990000, 5, 0) = FULL; least(-1, 5) = OUTSIDE; least(0, 4) = UNKNOWN; least(990000, 5) = FULL"
         + "; ends(2) = UNKNOWN; ends(1) = STATE; keep(2, 0) = UNKNOWN; seen(61, 0) = OUTSIDE; seen(0, 21) = OUTSIDE; "
-            + "weigh(2) = OUTSIDE; gust(11, 0, 0) = GONE + OUTSIDE; shares(2, 0, 0) = UNKNOWN; shares(0, -1, 0) = OUTSIDE"
+        + "weigh(2) = OUTSIDE; gust(11, 0, 0) = GONE + OUTSIDE; shares(2, 0, 0) = UNKNOWN; shares(0, -1, 0) = OUTSIDE"
         + "; week(10000, 1, 0) = OUTSIDE; image(2) = OUTSIDE; restore(2) = OUTSIDE; told(9) = OUTSIDE";
     for (String plan : PLANS) {
       BOOK.changesNothing(plan, anywhere + "; restore(0) = STATE; restore(1) = STATE");
@@ -130,8 +130,8 @@ public final class EdgesOfRefusalsTest {
     String asked = "fault(); judge(0); judge(1); judge(2); judge(3); behind(0); behind(1); behind(2); cost(0, 0); "
         + "cost(1, 1); spent(5); plain(0, 13, 15); shared(930000, 5); most(930000, 13, 0); most(930000, 13, 1)"
         + "; least(210000, 13); ends(0); mark(); keep(0, 0); leaks(-1); leaks(0); leaks(MAX); where(); weigh(0); weigh(1); "
-            + "gust(3, 0, 0); gust(10, 1, 1); shares(0, 123, 2); week(5, 50, 0); week(9999, 50, 2); told(0); told(25); "
-            + "told(101)";
+        + "gust(3, 0, 0); gust(10, 1, 1); shares(0, 123, 2); week(5, 50, 0); week(9999, 50, 2); told(0); told(25); "
+        + "told(101)";
     for (String plan : new String[] {CAN_BE, EIGHT_SIGHTS, IN_BAG, WARMED, FULL_PAD}) {
       BOOK.changesNothing("image(0); " + plan + "; image(1)", asked);
     }

@@ -52,7 +52,7 @@ public final class EdgesOfRestTest {
     BOOK.run(ONE + "set(0, 176); shares(0, 3000200, 0) = 0; shares(0, 3000200, 1) = 2; shares(0, 3000200, 2) = 0; "
         + "shares(0, 3000200, 3) = 2; set(0, 220); shares(0, 3000200, 1) = 3; shares(0, 3000200, 3) = 2"
         + "; set(0, 264); shares(0, 3000200, 2) = 1; set(0, 308); shares(0, 3000200, 3) = 3; shares(0, 3000200, 0) = 0; "
-            + "set(0, 352); shares(0, 3000200, 0) = 1; shares(0, 3000200, 1) = 3");
+        + "set(0, 352); shares(0, 3000200, 0) = 1; shares(0, 3000200, 1) = 3");
     BOOK.words("they are dealt, one by one");
     BOOK.run(ONE + "set(0, 132); shares(0, 2, 0) = 1; shares(0, 2, 1) = 1; shares(0, 2, 2) = 1; shares(0, 2, 3) = 0; "
         + "shares(0, 5, 3) = 0; set(0, 264); shares(0, 2, 0) = 2; shares(0, 2, 2) = 2; shares(0, 2, 3) = 0; set(0, 440); "

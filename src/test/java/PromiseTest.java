@@ -258,8 +258,7 @@ public final class PromiseTest {
     due("bag: a second is nothing more", pad(x, "~~..").behind(2), 1);
     due("bag: each night", pad(x, "~.~.").behind(2), 0);
     due("bag: an ACT each", x.done(), 4);
-    due("bag: DAYS are as told", x.told(21), 10);
-    due("bag: DAYS are as told", x.told(22), 10);
+    due("bag: a DAY that is over is as told", x.told(21), 10);
   }
 
   /** MEAL 0 is there, and every DAY is COLD. */
@@ -282,7 +281,6 @@ public final class PromiseTest {
     OneCan x = coldDays();
     due("12: DAY 0 is COLD", pad(x, "").behind(2), 1);
     due("12: the night is DONE: not COLD then", doneThen(x, "~.", "").behind(2), 0);
-    due("12: told as before", x.told(21), 10);
     due("12: a high flame", pad(x, "ah").judge(0), NONE);
     due("12: what it burns", x.spent(1), 55);
     due("12: gusts are told", x.gust(5, 1, 0), 66);
